@@ -71,7 +71,8 @@ public final class ShadowFiles {
         int sumOf(int block, int length) {
             int sum = 0;
             for (int i = 0; i < length; i++) {
-                sum = Integer.rotateLeft(sum ^ get(block, i), SUM_TURN) * SUM_FACTOR;
+                int mixed = sum ^ get(block, i);
+                sum = ((mixed << SUM_TURN) | (mixed >>> (32 - SUM_TURN))) * SUM_FACTOR;
             }
             return sum;
         }

@@ -756,6 +756,9 @@ public final class PromiseTest {
         x.poke(0, 6 * 32 + 7, 1);
         due("P11 a chain does not go on behind a wrong one", x.wrong(0, 3), -1);
         due("P11 open is the same", x.open() + x.wrong(0, 2), 8);
+        x.poke(0, 0, 1);
+        due("P11 place 0", x.wrong(0, 0), 0);
+        due("P11 place 2 is behind it no more", x.wrong(0, 1), 3);
 
         ShadowFiles y = new ShadowFiles();
         put(y, 0, 0, 60);
