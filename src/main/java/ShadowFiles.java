@@ -46,32 +46,30 @@ public final class ShadowFiles {
             return i >= 0 && i < cells.length;
         }
 
-        int cell(int i) {
-            return hasCell(i) ? cells[i] : 0;
-        }
-
-        void setCell(int i, int value) {
-            if (hasCell(i)) {
-                cells[i] = value & 0xFF;
-            }
-        }
-
         boolean hasBlock(int block) {
             return block >= 0 && block < cells.length && hasCell(block * size + size - 1);
         }
 
         int get(int block, int i) {
-            return cell(block * size + i);
+            int cell = block * size + i;
+            return cell >= 0 && cell < cells.length ? cells[cell] : 0;
         }
 
         void set(int block, int i, int value) {
-            setCell(block * size + i, value);
+            int cell = block * size + i;
+            if (cell >= 0 && cell < cells.length) {
+                cells[cell] = value & 0xFF;
+            }
         }
 
         int sumOf(int block, int length) {
+            int from = block * size;
+            if (from < 0 || from > cells.length - length) {
+                return 0;
+            }
             int sum = 0;
             for (int i = 0; i < length; i++) {
-                int mixed = sum ^ get(block, i);
+                int mixed = sum ^ cells[from + i];
                 sum = ((mixed << SUM_TURN) | (mixed >>> (32 - SUM_TURN))) * SUM_FACTOR;
             }
             return sum;
@@ -356,7 +354,7 @@ public final class ShadowFiles {
         if (!hasByte(what, i)) {
             throw new IndexOutOfBoundsException("no such byte");
         }
-        return partOf(what).cell(i);
+        return partOf(what).get(0, i);
     }
 
     public void poke(int what, int i, int mask) throws IndexOutOfBoundsException, IllegalArgumentException {
@@ -367,7 +365,7 @@ public final class ShadowFiles {
             throw new IllegalArgumentException("a mask is 1 to 255");
         }
         Blocks part = partOf(what);
-        part.setCell(i, part.cell(i) ^ mask);
+        part.set(0, i, part.get(0, i) ^ mask);
         shut = true;
     }
 
@@ -444,8 +442,9 @@ public final class ShadowFiles {
     }
 
     private void followRow(int row) {
-        boolean slow = isSlow(row);
-        chain.follow(placesOf(slow), firstOf(countingTable(), row, slow) - 1);
+        int table = countingTable();
+        boolean slow = firstOf(table, row, true) != 0;
+        chain.follow(placesOf(slow), firstOf(table, row, slow) - 1);
     }
 
     // Free places
