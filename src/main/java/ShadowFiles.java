@@ -432,6 +432,11 @@ public final class ShadowFiles {
         return table == NONE ? 0 : tables.get(table, (slow ? FIRST_IN_SLOW : FIRST_IN_FILE) + row);
     }
 
+    /** As firstOf, but 0 for the file when the row is slow: it has one chain, the table may name two. */
+    private int chainStart(int table, int row, boolean slow) {
+        return !slow && firstOf(table, row, true) != 0 ? 0 : firstOf(table, row, slow);
+    }
+
     private boolean isThere(int row) {
         int table = countingTable();
         return firstOf(table, row, false) != 0 || firstOf(table, row, true) != 0;
@@ -455,7 +460,7 @@ public final class ShadowFiles {
         }
         int table = countingTable();
         for (int row = 0; row < ROWS; row++) {
-            int first = firstOf(table, row, slow);
+            int first = chainStart(table, row, slow);
             if (first != 0) {
                 markChain.follow(placesOf(slow), first - 1);
                 markFollowed();

@@ -242,8 +242,7 @@ public final class ModelTest {
         TreeSet<Integer> gone(int part) {
             TreeSet<Integer> gone = new TreeSet<>();
             for (int row = 0; row < 12; row++) {
-                int first = tableByte((part == 0 ? 1 : 13) + row);
-                if (first > 0) gone.addAll(way(part, first - 1).places);
+                if (there(row) && slow(row) == (part == 1)) gone.addAll(way(row).places);
             }
             return gone;
         }

@@ -41,6 +41,8 @@ public final class PromiseTest {
         promise9At();
         promise10Told();
         promise11Wrong();
+        rowNamedInBothFiles();
+        rowNamedInBothFilesSharesAPlace();
         promise12ByteAt();
         promise13Poke();
         refusedChangesNothing();
@@ -792,6 +794,65 @@ public final class PromiseTest {
         put(e, 0, 0, 3);
         forge(e, 0, 1, 0);
         due("P11 a place that is not right, but its sum is", e.wrong(0, 0), -1);
+    }
+
+    // Promises 3, 10 and 11: a row whose bytes for both files are not 0 is slow, and has one chain
+
+    /** Row 0 is slow, in slow places 0 and 1, and its byte for the file names place 0; row 1 has place 2. */
+    private static ShadowFiles namedInBoth() {
+        ShadowFiles x = new ShadowFiles();
+        put(x, 0, 4, 30);
+        put(x, 1, 5, 3);
+        x.move(4);
+        forge(x, 2, 1, 1);
+        x.open();
+        return x;
+    }
+
+    private static void rowNamedInBothFiles() {
+        ShadowFiles x = namedInBoth();
+        due("Both: slow", x.at(0, 1), 1);
+        rowIs("Both: bytes", x, 0, pattern(30, 0));
+        toldIs("Both", x, 23, 14, 3, 0, 0);
+        due("Both: not moved again", x.move(4), 0);
+        x.poke(0, 7, 1);
+        due("Both: no chain goes through place 0", x.wrong(0, 0), -1);
+        x.poke(1, 7, 1);
+        due("Both: the slow chain is its own", x.wrong(1, 0), 0);
+        x.poke(1, 7, 1);
+        x.open();
+        tape(x, pattern(51, 9));
+        due("Both: written", x.write(2, 5), 3);
+        due("Both: the lowest free place is 0", x.byteAt(2, 40 + 1 + 2), 1);
+        due("Both: then 1", x.byteAt(0, 0), 2);
+        due("Both: then 3", x.byteAt(0, 32), 4);
+        rowIs("Both: the slow row stays", x, 0, pattern(30, 0));
+        toldIs("Both: behind a write", x, 20, 14, 4, 1, 0);
+        due("Both: removed", x.remove(0), 0);
+        due("Both: not there", x.at(0, 0), 0);
+        toldIs("Both: behind remove", x, 20, 16, 5, 0, 0);
+
+        ShadowFiles y = namedInBoth();
+        forge(y, 2, 13, 200);
+        y.open();
+        due("Both: no such slow place: slow", y.at(0, 1), 1);
+        due("Both: no such slow place: broken", y.at(0, 2), -1);
+        toldIs("Both: no such slow place", y, 23, 16, 3, 0, 0);
+        put(y, 0, 4, 26);
+        due("Both: written again, not slow", y.at(0, 1), 0);
+        toldIs("Both: written again", y, 21, 16, 4, 1, 0);
+    }
+
+    private static void rowNamedInBothFilesSharesAPlace() {
+        ShadowFiles x = namedInBoth();
+        forge(x, 2, 1, 3);
+        x.open();
+        due("Both: place 2 is row 1's still", x.told(0), 23);
+        x.poke(0, 2 * 32 + 9, 1);
+        due("Both: and is wrong", x.wrong(0, 0), 2);
+        x.open();
+        put(x, 3, 0, 60);
+        due("Both: and is not taken", x.byteAt(0, 32), 4);
     }
 
     // Promise 12
