@@ -10,11 +10,10 @@ import java.util.TreeSet;
  */
 public final class ModelTest {
     private static final int RUNS = 3000;
-    private static final int CALLS = 500;
-    private static final int INDEX = -1001;
-    private static final int TURN = -1002;
-    private static final int RANGE = -1003;
-    private static final int MEANING = -1004;
+    private static final int INDEX = Probe.INDEX;
+    private static final int TURN = Probe.TURN;
+    private static final int RANGE = Probe.RANGE;
+    private static final int MEANING = Probe.MEANING;
 
     private static int failures = 0;
 
@@ -285,7 +284,7 @@ public final class ModelTest {
     private static final class Run {
         final int seed;
         final Random random;
-        final ShadowFiles real = new ShadowFiles();
+        final Probe real = new Probe();
         final Model model = new Model();
         final List<String> told = new ArrayList<>();
         final List<int[]> poked = new ArrayList<>();
@@ -301,18 +300,18 @@ public final class ModelTest {
             harm = random.nextInt(4) == 0 ? 0 : 2 + random.nextInt(60);
         }
 
+        /** Some calls short of the most, so that a step of several calls has room. */
         void go() {
-            for (int call = 0; call < CALLS && failures < 10; call++) {
+            while (real.calls() < Probe.MOST_CALLS - 50 && failures < 10) {
                 if (harm != 0 && random.nextInt(harm) == 0) {
                     doHarm();
                 } else {
                     doOne(random.nextInt(22));
                 }
             }
-            for (int what = 0; what < 3; what++) {
-                for (int i = 0; i < model.parts[what].length; i++) {
-                    same("byteAt(" + what + ", " + i + ")", byteAt(what, i), model.byteAt(what, i));
-                }
+            for (int what = 0; what < 3 && failures < 10; what++) {
+                int differs = Arrays.mismatch(real.part(what), model.parts[what]);
+                same("the first byte of part " + what + " that differs", differs, -1);
             }
         }
 
@@ -379,67 +378,29 @@ public final class ModelTest {
         void look() {
             int what = random.nextInt(20) == 0 ? random.nextInt(5) - 1 : random.nextInt(3);
             int i = random.nextInt(790) - 5;
-            same("byteAt(" + what + ", " + i + ")", byteAt(what, i), model.byteAt(what, i));
-        }
-
-        int byteAt(int what, int i) {
-            try {
-                return real.byteAt(what, i);
-            } catch (RuntimeException e) {
-                return code(e);
-            }
+            same("byteAt(" + what + ", " + i + ")", real.byteAt(what, i), model.byteAt(what, i));
         }
 
         void feed() {
             long bytes = random.nextLong();
             int n = random.nextInt(4) == 0 ? pick(9) : 8;
-            int got;
-            try {
-                got = real.feed(bytes, n);
-            } catch (RuntimeException e) {
-                got = code(e);
-            }
-            same("feed(" + bytes + ", " + n + ")", got, model.feed(bytes, n));
+            same("feed(" + bytes + ", " + n + ")", real.feed(bytes, n), model.feed(bytes, n));
         }
 
         void write(int row, int month) {
-            int got;
-            try {
-                got = real.write(row, month);
-            } catch (RuntimeException e) {
-                got = code(e);
-            }
-            same("write(" + row + ", " + month + ")", got, model.write(row, month));
+            same("write(" + row + ", " + month + ")", real.write(row, month), model.write(row, month));
         }
 
         void remove(int row) {
-            int got;
-            try {
-                got = real.remove(row);
-            } catch (RuntimeException e) {
-                got = code(e);
-            }
-            same("remove(" + row + ")", got, model.remove(row));
+            same("remove(" + row + ")", real.remove(row), model.remove(row));
         }
 
         void move(int month) {
-            int got;
-            try {
-                got = real.move(month);
-            } catch (RuntimeException e) {
-                got = code(e);
-            }
-            same("move(" + month + ")", got, model.move(month));
+            same("move(" + month + ")", real.move(month), model.move(month));
         }
 
         void cut(int bytes) {
-            int got = 0;
-            try {
-                real.cut(bytes);
-            } catch (RuntimeException e) {
-                got = code(e);
-            }
-            same("cut(" + bytes + ")", got, model.cut(bytes));
+            same("cut(" + bytes + ")", real.cut(bytes), model.cut(bytes));
         }
 
         void open() {
@@ -447,72 +408,33 @@ public final class ModelTest {
         }
 
         void row(int row, int i) {
-            int got;
-            try {
-                got = real.row(row, i);
-            } catch (RuntimeException e) {
-                got = code(e);
-            }
-            same("row(" + row + ", " + i + ")", got, model.row(row, i));
+            same("row(" + row + ", " + i + ")", real.row(row, i), model.row(row, i));
         }
 
         void at(int row, int what) {
-            int got;
-            try {
-                got = real.at(row, what);
-            } catch (RuntimeException e) {
-                got = code(e);
-            }
-            same("at(" + row + ", " + what + ")", got, model.at(row, what));
+            same("at(" + row + ", " + what + ")", real.at(row, what), model.at(row, what));
         }
 
         void tell(int what) {
-            int got;
-            try {
-                got = real.told(what);
-            } catch (RuntimeException e) {
-                got = code(e);
-            }
-            same("told(" + what + ")", got, model.told(what));
+            same("told(" + what + ")", real.told(what), model.told(what));
         }
 
         void wrong(int what, int k) {
-            int got;
-            try {
-                got = real.wrong(what, k);
-            } catch (RuntimeException e) {
-                got = code(e);
-            }
-            same("wrong(" + what + ", " + k + ")", got, model.wrong(what, k));
+            same("wrong(" + what + ", " + k + ")", real.wrong(what, k), model.wrong(what, k));
         }
 
         void poke(int what, int i, int mask) {
-            int got = 0;
-            try {
-                real.poke(what, i, mask);
-            } catch (RuntimeException e) {
-                got = code(e);
-            }
-            same("poke(" + what + ", " + i + ", " + mask + ")", got, model.poke(what, i, mask));
+            same("poke(" + what + ", " + i + ", " + mask + ")", real.poke(what, i, mask), model.poke(what, i, mask));
         }
 
         void same(String call, int got, int want) {
-            told.add(call + " = " + got);
+            told.add(call + " = " + Probe.written(got));
             if (got != want && failures < 10) {
                 failures++;
-                System.out.println("run " + seed + ": " + call + " answered " + got + ", by the model " + want);
+                System.out.println("run " + seed + ": " + call + " answered " + Probe.written(got)
+                        + ", by the model " + Probe.written(want));
                 System.out.println("  behind " + told.subList(Math.max(0, told.size() - 12), told.size() - 1));
             }
         }
-    }
-
-    /** An exception by its exact class: the machine's own ones are no answer of the document. */
-    private static int code(RuntimeException e) {
-        Class<?> kind = e.getClass();
-        if (kind == IndexOutOfBoundsException.class) return INDEX;
-        if (kind == IllegalStateException.class) return TURN;
-        if (kind == IllegalArgumentException.class) return RANGE;
-        if (kind == UnsupportedOperationException.class) return MEANING;
-        return -2000;
     }
 }

@@ -1,1051 +1,1087 @@
 import java.util.Arrays;
 
-/**
- * For each promise of the document: ordinary calls, the edges that it names, and wrong inputs.
- * Where all bytes of a file are read, an object has more than the 512 calls that are promised: this
- * class counts none.
- */
-public final class PromiseTest {
-    private static final String INDEX = "IndexOutOfBoundsException";
-    private static final String TURN = "IllegalStateException";
-    private static final String RANGE = "IllegalArgumentException";
-    private static final String MEANING = "UnsupportedOperationException";
-
-    private static int failures = 0;
-    private static int checks = 0;
-
-    private interface Call {
-        int answer();
+/** A test for each sentence of the document's promises 1 to 13, by its own words. */
+public final class PromiseTest extends Bench {
+    public static void main(String[] args) {
+        promises1And2();
+        promise3();
+        promises4And5();
+        promises6And7();
+        promises8And9();
+        promise10();
+        promise11();
+        promises12And13();
+        end();
     }
 
-    public static void main(String[] args) {
-        promise1New();
-        promise2Feed();
-        promise3Write();
-        promise3Refused();
-        promise3Layout();
-        promise3Room();
-        promise3Numbers();
-        promise4Remove();
-        promise5Move();
-        promise5Layout();
-        promise5Room();
-        promise5Broken();
-        promise6Cut();
-        promise6CutEveryByte();
-        promise6CutMove();
-        promise7Open();
-        promise7Tables();
-        promise8Row();
-        promise8Chains();
-        promise9At();
-        promise10Told();
-        promise11Wrong();
-        rowNamedInBothFiles();
-        rowNamedInBothFilesSharesAPlace();
-        promise12ByteAt();
-        promise13Poke();
-        refusedChangesNothing();
-        System.out.println(checks + " checks, " + failures + " failed");
-        if (failures != 0) {
-            System.exit(1);
+    private static void promises1And2() {
+        section("Promise 1: A new object");
+        test("An empty file that is open.", PromiseTest::emptyAndOpen);
+        section("Promise 2: feed");
+        test("n bytes (1 .. 8; the lowest n, the highest of these first)", PromiseTest::lowestBytesHighestFirst);
+        test("more on the tape: how many.", PromiseTest::howManyOnTheTape);
+        test("Range: n;", PromiseTest::feedRange);
+        test("meaning: there would be more than 60.", PromiseTest::feedMeaning);
+    }
+
+    private static void promise3() {
+        section("Promise 3: write");
+        test("The tape (used up) becomes a row: how many places it takes;", PromiseTest::tapeBecomesARow);
+        test("-1 when the power failed.", PromiseTest::writePower);
+        test("Index: no such row;", PromiseTest::writeIndex);
+        test("turn: the file is shut, or the tape is empty;", PromiseTest::writeTurn);
+        test("range: the month;", PromiseTest::writeRange);
+        test("meaning: there are not so many free places (the tape stays).", PromiseTest::writeMeaning);
+    }
+
+    private static void promises4And5() {
+        section("Promise 4: remove");
+        test("A row is taken away: 0;", PromiseTest::rowTakenAway);
+        test("-1 when the power failed.", PromiseTest::removePower);
+        test("Index: no such row;", PromiseTest::removeIndex);
+        test("turn: the file is shut, or the row is not there.", PromiseTest::removeTurn);
+        section("Promise 5: move");
+        test("Moves a month to the slow file: how many rows;", PromiseTest::monthMoved);
+        test("-1 when the power failed.", PromiseTest::movePower);
+        test("Turn: the file is shut;", PromiseTest::moveTurn);
+        test("range: the month;", PromiseTest::moveRange);
+        test("meaning: there is no room for the next of them (those ahead of it are moved).",
+                PromiseTest::moveMeaning);
+    }
+
+    private static void promises6And7() {
+        section("Promise 6: cut");
+        test("The next write is cut behind so many bytes (0 .. 200; -1: it is not).", PromiseTest::nextWriteIsCut);
+        test("Range: they are not so.", PromiseTest::cutRange);
+        section("Promise 7: open");
+        test("Opens the file again by its tables: how many rows there are.", PromiseTest::openedAgain);
+    }
+
+    private static void promises8And9() {
+        section("Promise 8: row");
+        test("Byte i of a row;", PromiseTest::byteOfARow);
+        test("i = -1: how many it has (0: it is broken).", PromiseTest::bytesOfARow);
+        test("Index: no such row, or i is below -1;", PromiseTest::rowIndex);
+        test("turn: the file is shut, or the row is not there;", PromiseTest::rowTurn);
+        test("then index again: it has no such byte.", PromiseTest::rowIndexAgain);
+        section("Promise 9: at");
+        test("Of a row 0 whether it is there (1, 0),", PromiseTest::whetherItIsThere);
+        test("1 whether it is slow,", PromiseTest::whetherItIsSlow);
+        test("2 its month (-1: broken),", PromiseTest::itsMonth);
+        test("3 how many places its chain goes through.", PromiseTest::itsPlaces);
+        test("Index: no such row or what;", PromiseTest::atIndex);
+        test("turn: the file is shut, or (1 to 3) the row is not there.", PromiseTest::atTurn);
+    }
+
+    private static void promise10() {
+        section("Promise 10: told");
+        test("What 0 free places,", PromiseTest::toldFree);
+        test("1 free ones of the slow file,", PromiseTest::toldSlowFree);
+        test("2 the number of the table that counts (0: none),", PromiseTest::toldNumber);
+        test("3 which of the two that is (0 or 1; -1: none),", PromiseTest::toldTable);
+        test("4 bytes on the tape.", PromiseTest::toldTape);
+        test("Index: no such what;", PromiseTest::toldIndex);
+        test("turn: the file is shut (0 to 3).", PromiseTest::toldTurn);
+    }
+
+    private static void promise11() {
+        section("Promise 11: wrong");
+        test("Checks sums: the k-th (0 first, by numbers) of 0 places that chains go through,",
+                PromiseTest::wrongPlaces);
+        test("1 slow ones that slow chains go through, whose sum is not right;", PromiseTest::wrongSlowPlaces);
+        test("2 of the tables that are not all 0 and whose sum is not right", PromiseTest::wrongTables);
+        test("(of each by the file as it stands, also when it is shut);", PromiseTest::wrongAsItStands);
+        test("-1 when there are not so many.", PromiseTest::wrongNotSoMany);
+        test("Index: no such what, or k is below 0.", PromiseTest::wrongIndex);
+    }
+
+    private static void promises12And13() {
+        section("Promise 12: byteAt");
+        test("Byte i of the file: what 0 places (768), 1 the slow file's (512), 2 tables (80).",
+                PromiseTest::bytesOfTheFile);
+        test("Index: there is none such.", PromiseTest::byteAtIndex);
+        section("Promise 13: poke");
+        test("A byte of it is xored by a mask (1 .. 255);", PromiseTest::xoredByAMask);
+        test("the file is shut then.", PromiseTest::shutByAPoke);
+        test("Index: there is none such;", PromiseTest::pokeIndex);
+        test("range: the mask.", PromiseTest::pokeRange);
+    }
+
+    // Files that several tests begin with
+
+    private static Probe withRow(int row, int month, int n) {
+        Probe x = new Probe();
+        x.put(row, month, n);
+        return x;
+    }
+
+    /** Rows 0 to 7 of month 1, three places each: none is free. */
+    private static Probe fullFile() {
+        Probe x = new Probe();
+        for (int row = 0; row < 8; row++) {
+            x.put(row, 1, 60);
         }
+        return x;
+    }
+
+    /** Rows 0 to 3 of month 1 and row 4 have 14 of the slow places. */
+    private static Probe slowFileWithTwoLeft() {
+        Probe x = new Probe();
+        for (int row = 0; row < 4; row++) {
+            x.put(row, 1, 60);
+        }
+        x.put(4, 1, 50);
+        x.move(1);
+        return x;
     }
 
     // Promise 1
 
-    private static void promise1New() {
-        ShadowFiles x = new ShadowFiles();
-        for (int what = 0; what < 3; what++) {
-            for (int i = 0; i < size(what); i++) {
-                if (x.byteAt(what, i) != 0) {
-                    due("P1 byte " + what + " " + i, x.byteAt(what, i), 0);
-                }
-            }
-        }
-        toldIs("P1 empty", x, 24, 16, 0, -1, 0);
+    private static void emptyAndOpen() {
+        Probe x = new Probe();
+        toldIs("empty", x, 24, 16, 0, -1, 0);
         for (int row = 0; row < 12; row++) {
-            due("P1 no row", x.at(row, 0), 0);
+            due("row " + row, x.at(row, 0), 0);
         }
-        ShadowFiles other = new ShadowFiles();
-        put(x, 0, 0, 5);
-        due("P1 objects share nothing", other.told(2), 0);
+        for (int what = 0; what < 3; what++) {
+            partIs("its bytes", x, what, new int[Probe.size(what)]);
+            due("nothing is wrong", x.wrong(what, 0), -1);
+        }
+        Probe other = new Probe();
+        due("no cut is ahead", x.put(0, 0, 60), 3);
+        toldIs("another one has nothing of it", other, 24, 16, 0, -1, 0);
     }
 
     // Promise 2
 
-    private static void promise2Feed() {
-        ShadowFiles x = new ShadowFiles();
-        throwsIt("P2 n 0", RANGE, () -> x.feed(1, 0));
-        throwsIt("P2 n 9", RANGE, () -> x.feed(1, 9));
-        throwsIt("P2 n -1", RANGE, () -> x.feed(1, -1));
-        throwsIt("P2 n min", RANGE, () -> x.feed(1, Integer.MIN_VALUE));
-        throwsIt("P2 n max", RANGE, () -> x.feed(1, Integer.MAX_VALUE));
-        due("P2 first", x.feed(0x1122334455667788L, 3), 3);
-        due("P2 second", x.feed(0xF0E1D2C3B4A59687L, 8), 11);
-        x.write(0, 0);
-        int[] want = {0x66, 0x77, 0x88, 0xF0, 0xE1, 0xD2, 0xC3, 0xB4, 0xA5, 0x96, 0x87};
-        rowIs("P2 order", x, 0, want);
-
-        for (int k = 1; k <= 7; k++) {
-            due("P2 more", x.feed(k, 8), 8 * k);
+    private static void lowestBytesHighestFirst() {
+        long bytes = 0xF1E2D3C4B5A69788L;
+        for (int n = 1; n <= 8; n++) {
+            Probe x = new Probe();
+            due("n " + n, x.feed(bytes, n), n);
+            x.write(0, 0);
+            int[] want = new int[n];
+            for (int i = 0; i < n; i++) {
+                want[i] = (int) (bytes >>> (8 * (n - 1 - i))) & 0xFF;
+            }
+            rowIs("n " + n, x, 0, want);
         }
-        throwsIt("P2 61", MEANING, () -> x.feed(0, 5));
-        throwsIt("P2 range ahead of meaning", RANGE, () -> x.feed(0, 9));
-        due("P2 60", x.feed(0, 4), 60);
-        throwsIt("P2 60 and 1", MEANING, () -> x.feed(0, 1));
-        x.poke(0, 700, 1);
-        throwsIt("P2 full and shut", MEANING, () -> x.feed(0, 1));
-        due("P2 stays", x.told(4), 60);
+        Probe x = new Probe();
+        x.feed(0x0102030405060708L, 8);
+        x.feed(-1L, 1);
+        x.feed(Long.MIN_VALUE, 8);
+        x.feed(0x7FFFL, 2);
+        x.write(0, 0);
+        rowIs("one behind the other", x, 0,
+                new int[] {1, 2, 3, 4, 5, 6, 7, 8, 255, 128, 0, 0, 0, 0, 0, 0, 0, 127, 255});
+    }
 
-        ShadowFiles y = new ShadowFiles();
-        y.poke(0, 0, 1);
-        due("P2 while it is shut", y.feed(-1, 8), 8);
+    private static void howManyOnTheTape() {
+        Probe x = new Probe();
+        due("1", x.feed(0, 1), 1);
+        due("and 8", x.feed(0, 8), 9);
+        due("and 3", x.feed(0, 3), 12);
+        x.write(0, 0);
+        due("a new tape", x.feed(0, 2), 2);
+        x.shut();
+        due("also when the file is shut", x.feed(0, 5), 7);
+    }
+
+    private static void feedRange() {
+        Probe x = new Probe();
+        x.feed(0, 3);
+        for (int n : outside(1, 8)) {
+            refused("n " + n, x, p -> p.feed(-1, n), RANGE);
+        }
+        due("n 1", x.feed(0, 1), 4);
+        due("n 8", x.feed(0, 8), 12);
+    }
+
+    private static void feedMeaning() {
+        Probe x = new Probe();
+        x.tape(Probe.pattern(56, 3));
+        for (int n = 5; n <= 8; n++) {
+            int more = n;
+            refused("56 and " + n, x, p -> p.feed(-1, more), MEANING);
+        }
+        due("60", x.feed(0x0A0B0C0DL, 4), 60);
+        for (int n = 1; n <= 8; n++) {
+            int more = n;
+            refused("60 and " + n, x, p -> p.feed(-1, more), MEANING);
+        }
+        x.write(0, 0);
+        int[] want = Arrays.copyOf(Probe.pattern(56, 3), 60);
+        System.arraycopy(new int[] {10, 11, 12, 13}, 0, want, 56, 4);
+        rowIs("60 bytes", x, 0, want);
     }
 
     // Promise 3
 
-    private static void promise3Write() {
-        int[] lengths = {1, 24, 25, 26, 49, 50, 51, 59, 60};
-        int[] places = {1, 1, 1, 2, 2, 2, 3, 3, 3};
-        for (int k = 0; k < lengths.length; k++) {
-            ShadowFiles x = new ShadowFiles();
-            int[] bytes = pattern(lengths[k], 7 * k);
-            tape(x, bytes);
-            due("P3 places", x.write(11, 11), places[k]);
-            due("P3 tape used up", x.told(4), 0);
-            rowIs("P3 bytes", x, 11, bytes);
-            due("P3 month", x.at(11, 2), 11);
-            due("P3 chain", x.at(11, 3), places[k]);
-            due("P3 free", x.told(0), 24 - places[k]);
+    private static void tapeBecomesARow() {
+        for (int n = 1; n <= 60; n++) {
+            Probe x = new Probe();
+            x.tape(Probe.pattern(n, n));
+            due("places of " + n, x.write(n % 12, n % 7), (n + 24) / 25);
+            due("the tape is used up", x.told(4), 0);
+            due("and empty", x.write(0, 0), TURN);
+            rowIs(n + " bytes", x, n % 12, Probe.pattern(n, n));
+            due("month", x.at(n % 12, 2), n % 7);
         }
-        ShadowFiles x = new ShadowFiles();
-        put(x, 3, 2, 60);
-        put(x, 3, 4, 10);
-        due("P3 again: bytes", x.row(3, -1), 10);
-        due("P3 again: month", x.at(3, 2), 4);
-        due("P3 again: free", x.told(0), 23);
-        due("P3 again: behind the old ones", x.byteAt(2, 40 + 1 + 3), 4);
-        put(x, 4, 4, 30);
-        due("P3 lowest free first", x.byteAt(2, 1 + 4), 1);
-        put(x, 5, 4, 30);
-        due("P3 round the used ones", x.byteAt(2, 40 + 1 + 5), 3);
-        due("P3 round the used ones: link", x.byteAt(0, 2 * 32), 5);
+        Probe x = withRow(3, 2, 60);
+        due("a shorter one of another month", x.put(3, 4, 10), 1);
+        rowIs("a shorter one", x, 3, Probe.pattern(10, 3));
+        due("another month", x.at(3, 2), 4);
+        due("the older places are free", x.told(0), 23);
+        due("a longer one", x.put(3, 4, 60), 3);
+        rowIs("a longer one", x, 3, Probe.pattern(60, 3));
     }
 
-    private static void promise3Refused() {
-        ShadowFiles x = new ShadowFiles();
-        throwsIt("P3 row -1", INDEX, () -> x.write(-1, 0));
-        throwsIt("P3 row 12", INDEX, () -> x.write(12, 0));
-        throwsIt("P3 row min", INDEX, () -> x.write(Integer.MIN_VALUE, 99));
-        throwsIt("P3 row max", INDEX, () -> x.write(Integer.MAX_VALUE, 99));
-        throwsIt("P3 tape empty", TURN, () -> x.write(0, 0));
-        throwsIt("P3 turn ahead of range", TURN, () -> x.write(0, 12));
-        x.feed(65, 1);
-        throwsIt("P3 month -1", RANGE, () -> x.write(0, -1));
-        throwsIt("P3 month 12", RANGE, () -> x.write(0, 12));
-        throwsIt("P3 month max", RANGE, () -> x.write(0, Integer.MAX_VALUE));
-        throwsIt("P3 index ahead of range", INDEX, () -> x.write(12, 12));
-        x.poke(0, 0, 1);
-        throwsIt("P3 shut", TURN, () -> x.write(0, 0));
-        throwsIt("P3 shut ahead of range", TURN, () -> x.write(0, -1));
-        throwsIt("P3 index ahead of shut", INDEX, () -> x.write(12, 0));
-        due("P3 tape stays", x.told(4), 1);
+    private static void writePower() {
+        Probe x = withRow(0, 1, 9);
+        x.tape(Probe.pattern(30, 5));
+        x.cut(103);
+        due("the power failed", x.write(0, 2), -1);
+        due("the tape is used up", x.told(4), 0);
+        due("shut", x.write(0, 2), TURN);
         x.open();
-        due("P3 month 0 and row 0", x.write(0, 0), 1);
+        rowIs("the row as it was", x, 0, Probe.pattern(9, 0));
+        due("its month as it was", x.at(0, 2), 1);
+        x.tape(Probe.pattern(30, 5));
+        due("then it is written", x.write(0, 2), 2);
+        rowIs("then it is written", x, 0, Probe.pattern(30, 5));
     }
 
-    private static void promise3Layout() {
-        ShadowFiles x = new ShadowFiles();
-        put(x, 0, 9, 3);
-        int[] bytes = pattern(57, 100);
-        tape(x, bytes);
-        x.write(7, 6);
-        int[] want = new int[768];
-        place(want, 0, 0, 9, pattern(3, 0), 0, 3);
-        place(want, 1, 3, 6, bytes, 0, 25);
-        place(want, 2, 4, 6, bytes, 25, 25);
-        place(want, 3, 0, 6, bytes, 50, 7);
-        partIs("P3 places", x, 0, want);
-        int[] first = new int[40];
-        first[0] = 1;
-        first[1] = 1;
-        sum(first, 0, 40);
-        int[] second = first.clone();
-        second[0] = 2;
-        second[1 + 7] = 2;
-        sum(second, 0, 40);
-        int[] both = Arrays.copyOf(first, 80);
-        System.arraycopy(second, 0, both, 40, 40);
-        partIs("P3 tables", x, 2, both);
-        partIs("P3 slow file", x, 1, new int[512]);
-    }
-
-    private static void promise3Room() {
-        ShadowFiles x = new ShadowFiles();
-        for (int row = 0; row < 8; row++) {
-            put(x, row, 1, 60);
+    private static void writeIndex() {
+        Probe x = withRow(0, 0, 3);
+        x.feed(1, 1);
+        for (int row : outside(0, 11)) {
+            refused("row " + row, x, p -> p.write(row, 0), INDEX);
         }
-        due("P3 full", x.told(0), 0);
-        tape(x, pattern(1, 0));
-        throwsIt("P3 no room", MEANING, () -> x.write(8, 0));
-        throwsIt("P3 no room for a new one of its own", MEANING, () -> x.write(0, 0));
-        throwsIt("P3 range ahead of meaning", RANGE, () -> x.write(0, 12));
-        due("P3 the tape stays", x.told(4), 1);
-        due("P3 the number stays", x.told(2), 8);
+        due("row 0", x.write(0, 0), 1);
+        x.feed(1, 1);
+        due("row 11", x.write(11, 0), 1);
+    }
+
+    private static void writeTurn() {
+        Probe x = withRow(0, 0, 3);
+        refused("the tape is empty", x, p -> p.write(0, 0), TURN);
+        x.feed(1, 1);
+        x.shut();
+        refused("shut by a poke", x, p -> p.write(0, 0), TURN);
+        x.open();
+        due("opened", x.write(0, 0), 1);
+        x.cut(0);
+        x.remove(0);
+        x.feed(1, 1);
+        refused("shut by the power", x, p -> p.write(0, 0), TURN);
+    }
+
+    private static void writeRange() {
+        Probe x = withRow(0, 0, 3);
+        x.feed(1, 1);
+        for (int month : outside(0, 11)) {
+            refused("month " + month, x, p -> p.write(0, month), RANGE);
+        }
+        due("month 0", x.write(0, 0), 1);
+        x.feed(1, 1);
+        due("month 11", x.write(0, 11), 1);
+    }
+
+    private static void writeMeaning() {
+        Probe x = fullFile();
+        x.feed(1, 1);
+        refused("one, and none is free", x, p -> p.write(8, 0), MEANING);
+        refused("its own places are not free", x, p -> p.write(7, 0), MEANING);
         x.remove(3);
-        due("P3 three are free", x.told(0), 3);
-        due("P3 room again", x.write(3, 0), 1);
-        tape(x, pattern(51, 0));
-        throwsIt("P3 two for three", MEANING, () -> x.write(3, 0));
-        due("P3 the tape of 51 stays", x.told(4), 51);
-        due("P3 the old row stays", x.row(3, -1), 1);
+        due("one of three", x.write(3, 0), 1);
+        x.tape(Probe.pattern(51, 0));
+        refused("three, and two are free", x, p -> p.write(8, 0), MEANING);
+        due("the tape stays", x.told(4), 51);
         x.remove(3);
-        due("P3 three for three", x.write(3, 0), 3);
-        due("P3 full again", x.told(0), 0);
-    }
-
-    private static void promise3Numbers() {
-        ShadowFiles y = new ShadowFiles();
-        for (int n = 1; n <= 100; n++) {
-            writeNumbered(y, n);
-            due("P3 number", y.told(2), n);
-            due("P3 tables by turns", y.told(3), n % 2 == 1 ? 0 : 1);
-        }
-        ShadowFiles x = new ShadowFiles();
-        for (int n = 1; n <= 250; n++) {
-            writeNumbered(x, n);
-        }
-        due("P3 number 250", x.told(2), 250);
-        due("P3 table of 250", x.told(3), 1);
-        x.feed(77, 1);
-        x.write(5, 3);
-        due("P3 1 behind 250", x.told(2), 1);
-        due("P3 table of 1", x.told(3), 0);
-        due("P3 row by 1", x.row(5, 0), 77);
-        due("P3 other rows by 1", x.row(10, 0), 250);
-        due("P3 opened by 1", x.open(), 12);
-        x.remove(5);
-        due("P3 2 behind 1", x.told(2), 2);
-        due("P3 2 counts", x.told(3), 1);
-    }
-
-    /** Two calls alone, so that number 250 is behind before the 512 calls of an object are. */
-    private static void writeNumbered(ShadowFiles x, int n) {
-        x.feed(n, 1);
-        x.write(n % 12, 0);
+        due("three, and three are free", x.write(8, 0), 3);
+        rowIs("by the tape that stayed", x, 8, Probe.pattern(51, 0));
+        due("none is free", x.told(0), 0);
+        x.move(1);
+        x.tape(Probe.pattern(26, 0));
+        due("room by moving", x.write(9, 0), 2);
+        due("and some is left", x.told(0), 13);
     }
 
     // Promise 4
 
-    private static void promise4Remove() {
-        ShadowFiles x = new ShadowFiles();
-        throwsIt("P4 row -1", INDEX, () -> x.remove(-1));
-        throwsIt("P4 row 12", INDEX, () -> x.remove(12));
-        throwsIt("P4 not there", TURN, () -> x.remove(0));
-        put(x, 0, 1, 30);
-        put(x, 11, 1, 30);
-        int[] places = part(x, 0);
-        due("P4 removed", x.remove(0), 0);
-        due("P4 gone", x.at(0, 0), 0);
-        due("P4 the other one", x.row(11, -1), 30);
-        due("P4 free", x.told(0), 22);
-        due("P4 number", x.told(2), 3);
-        due("P4 table", x.told(3), 0);
-        partIs("P4 no place is written", x, 0, places);
-        throwsIt("P4 twice", TURN, () -> x.remove(0));
-        due("P4 opened", x.open(), 1);
-
+    private static void rowTakenAway() {
+        Probe x = withRow(0, 1, 30);
+        x.put(11, 1, 30);
+        due("row 0", x.remove(0), 0);
+        due("it is not there", x.at(0, 0), 0);
+        rowIs("the other one stays", x, 11, Probe.pattern(30, 11));
+        due("its places are free", x.told(0), 22);
+        due("opened", x.open(), 1);
         x.move(1);
-        due("P4 slow one", x.remove(11), 0);
-        due("P4 slow one gone", x.at(11, 0), 0);
-        due("P4 slow free", x.told(1), 16);
-
-        put(x, 2, 1, 30);
+        due("a slow one", x.remove(11), 0);
+        due("it is not there either", x.at(11, 0), 0);
+        due("its slow places are free", x.told(1), 16);
+        due("none is left", x.open(), 0);
+        x.put(2, 1, 30);
         x.poke(0, 5, 1);
-        throwsIt("P4 shut", TURN, () -> x.remove(2));
-        throwsIt("P4 index ahead of shut", INDEX, () -> x.remove(12));
         x.open();
-        due("P4 broken one", x.remove(2), 0);
-        due("P4 broken one gone", x.at(2, 0), 0);
+        due("a broken one", x.remove(2), 0);
+        due("the broken one is not there", x.at(2, 0), 0);
+        x.tape(Probe.pattern(4, 0));
+        due("the tape stays", x.told(4), 4);
+        x.write(0, 0);
+        x.feed(1, 1);
+        x.remove(0);
+        due("the tape stays when a row goes", x.told(4), 1);
+    }
 
-        put(x, 2, 1, 30);
+    private static void removePower() {
+        Probe x = withRow(2, 1, 30);
         x.cut(39);
-        due("P4 power", x.remove(2), -1);
-        throwsIt("P4 shut by power", TURN, () -> x.remove(2));
-        due("P4 still there", x.open(), 1);
+        due("the power failed", x.remove(2), -1);
+        due("shut", x.remove(2), TURN);
+        due("still there", x.open(), 1);
+        rowIs("still there", x, 2, Probe.pattern(30, 2));
+        x.cut(0);
+        due("ahead of the first byte", x.remove(2), -1);
+        x.open();
         x.cut(40);
-        due("P4 whole", x.remove(2), 0);
-        due("P4 none left", x.open(), 0);
+        due("whole", x.remove(2), 0);
+        due("gone", x.open(), 0);
+    }
+
+    private static void removeIndex() {
+        Probe x = withRow(0, 0, 3);
+        x.put(11, 0, 3);
+        for (int row : outside(0, 11)) {
+            refused("row " + row, x, p -> p.remove(row), INDEX);
+        }
+        due("row 0", x.remove(0), 0);
+        due("row 11", x.remove(11), 0);
+    }
+
+    private static void removeTurn() {
+        Probe x = withRow(0, 0, 3);
+        for (int row = 1; row < 12; row++) {
+            due("row " + row + " is not there", x.remove(row), TURN);
+        }
+        refused("not there", x, p -> p.remove(1), TURN);
+        x.remove(0);
+        refused("not there any more", x, p -> p.remove(0), TURN);
+        x.put(0, 0, 3);
+        x.shut();
+        refused("shut", x, p -> p.remove(0), TURN);
+        x.open();
+        due("opened", x.remove(0), 0);
     }
 
     // Promise 5
 
-    private static void promise5Move() {
-        ShadowFiles x = new ShadowFiles();
-        throwsIt("P5 month -1", RANGE, () -> x.move(-1));
-        throwsIt("P5 month 12", RANGE, () -> x.move(12));
-        due("P5 nothing", x.move(0), 0);
-        due("P5 nothing is written", x.told(2), 0);
-        put(x, 8, 4, 60);
-        put(x, 1, 5, 60);
-        put(x, 3, 4, 26);
-        due("P5 two", x.move(4), 2);
-        due("P5 number: a write for each", x.told(2), 5);
-        due("P5 slow 3", x.at(3, 1), 1);
-        due("P5 slow 8", x.at(8, 1), 1);
-        due("P5 not slow 1", x.at(1, 1), 0);
-        due("P5 month", x.at(8, 2), 4);
-        rowIs("P5 bytes 8", x, 8, pattern(60, 8));
-        rowIs("P5 bytes 3", x, 3, pattern(26, 3));
-        due("P5 free", x.told(0), 21);
-        due("P5 slow free", x.told(1), 11);
-        due("P5 again", x.move(4), 0);
-        due("P5 again writes nothing", x.told(2), 5);
-        put(x, 8, 4, 5);
-        due("P5 written again is not slow", x.at(8, 1), 0);
-        due("P5 written again", x.row(8, -1), 5);
-        due("P5 written again: slow free", x.told(1), 14);
-        put(x, 8, 6, 5);
-        due("P5 of another month", x.move(4), 0);
-        x.poke(0, 760, 1);
-        throwsIt("P5 shut", TURN, () -> x.move(5));
-        throwsIt("P5 shut ahead of range", TURN, () -> x.move(12));
-        x.open();
-        due("P5 one", x.move(5), 1);
-    }
-
-    private static void promise5Layout() {
-        ShadowFiles x = new ShadowFiles();
-        put(x, 9, 0, 1);
-        put(x, 4, 7, 51);
-        put(x, 2, 7, 30);
-        int[] places = part(x, 0);
-        due("P5 by numbers", x.move(7), 2);
-        partIs("P5 the file stays", x, 0, places);
-        int[] want = new int[512];
-        place(want, 0, 2, 7, pattern(30, 2), 0, 25);
-        place(want, 1, 0, 7, pattern(30, 2), 25, 5);
-        place(want, 2, 4, 7, pattern(51, 4), 0, 25);
-        place(want, 3, 5, 7, pattern(51, 4), 25, 25);
-        place(want, 4, 0, 7, pattern(51, 4), 50, 1);
-        partIs("P5 slow places", x, 1, want);
-        int[] older = new int[40];
-        older[0] = 4;
-        older[1 + 9] = 1;
-        older[1 + 4] = 2;
-        older[13 + 2] = 1;
-        sum(older, 0, 40);
-        int[] newer = older.clone();
-        newer[0] = 5;
-        newer[1 + 4] = 0;
-        newer[13 + 4] = 3;
-        sum(newer, 0, 40);
-        int[] both = Arrays.copyOf(newer, 80);
-        System.arraycopy(older, 0, both, 40, 40);
-        partIs("P5 tables", x, 2, both);
-    }
-
-    private static void promise5Room() {
-        ShadowFiles x = new ShadowFiles();
-        for (int row = 0; row < 4; row++) {
-            put(x, row, 1, 60);
+    private static void monthMoved() {
+        Probe x = withRow(8, 4, 60);
+        x.put(1, 5, 60);
+        x.put(3, 4, 26);
+        due("none of month 6", x.move(6), 0);
+        due("two of month 4", x.move(4), 2);
+        due("row 8 is slow", x.at(8, 1), 1);
+        due("row 3 is slow", x.at(3, 1), 1);
+        due("row 1 is not", x.at(1, 1), 0);
+        rowIs("row 8", x, 8, Probe.pattern(60, 8));
+        rowIs("row 3", x, 3, Probe.pattern(26, 3));
+        due("month of row 8", x.at(8, 2), 4);
+        toldIs("two moved", x, 21, 11, 5, 0, 0);
+        due("none again", x.move(4), 0);
+        Probe all = new Probe();
+        for (int row = 0; row < 12; row++) {
+            all.put(row, 11, 1);
         }
-        put(x, 4, 1, 50);
-        put(x, 5, 2, 60);
-        put(x, 6, 2, 25);
-        due("P5 five", x.move(1), 5);
-        due("P5 two left", x.told(1), 2);
-        throwsIt("P5 no room", MEANING, () -> x.move(2));
-        due("P5 the next is not passed over", x.at(6, 1), 0);
-        due("P5 number stays", x.told(2), 12);
-        put(x, 5, 2, 26);
-        put(x, 6, 2, 25);
-        throwsIt("P5 room for one", MEANING, () -> x.move(2));
-        due("P5 that ahead is moved", x.at(5, 1), 1);
-        due("P5 the next is not", x.at(6, 1), 0);
-        due("P5 all is taken", x.told(1), 0);
-        x.cut(0);
-        throwsIt("P5 refused, so the cut stays", MEANING, () -> x.move(2));
-        due("P5 the cut is still ahead", x.remove(0), -1);
-        x.open();
-        x.remove(2);
-        due("P5 three free", x.told(1), 3);
-        due("P5 room again", x.move(2), 1);
-        due("P5 lowest free slow place", x.byteAt(2, x.told(3) * 40 + 13 + 6), 7);
+        due("all twelve, month 11", all.move(11), 12);
+        toldIs("all twelve", all, 24, 4, 24, 1, 0);
+        due("all are there", all.open(), 12);
     }
 
-    private static void promise5Broken() {
-        ShadowFiles x = new ShadowFiles();
-        put(x, 0, 0, 30);
-        put(x, 1, 0, 30);
-        x.poke(0, 32 + 4, 8);
+    private static void movePower() {
+        Probe x = withRow(0, 0, 60);
+        x.cut(135);
+        due("the power failed", x.move(0), -1);
+        due("shut", x.move(0), TURN);
+        due("opened", x.open(), 1);
+        due("not slow", x.at(0, 1), 0);
+        x.cut(136);
+        due("whole", x.move(0), 1);
+        x.cut(0);
+        due("no row, so no write, so no failure", x.move(0), 0);
+        due("the cut is ahead of the next one still", x.remove(0), -1);
+    }
+
+    private static void moveTurn() {
+        Probe x = withRow(0, 0, 3);
+        x.shut();
+        refused("shut, a row to move", x, p -> p.move(0), TURN);
+        refused("shut, none to move", x, p -> p.move(1), TURN);
         x.open();
-        due("P5 a broken one has no month", x.move(0), 1);
-        due("P5 broken stays", x.at(0, 1), 0);
-        due("P5 whole one moved", x.at(1, 1), 1);
+        due("opened", x.move(0), 1);
+    }
+
+    private static void moveRange() {
+        Probe x = withRow(0, 0, 3);
+        x.put(1, 11, 3);
+        for (int month : outside(0, 11)) {
+            refused("month " + month, x, p -> p.move(month), RANGE);
+        }
+        due("month 0", x.move(0), 1);
+        due("month 11", x.move(11), 1);
+    }
+
+    private static void moveMeaning() {
+        Probe x = slowFileWithTwoLeft();
+        x.put(5, 2, 60);
+        x.put(6, 2, 25);
+        refused("three, and two are free", x, p -> p.move(2), MEANING);
+        due("the next one is not passed over", x.at(6, 1), 0);
+        x.put(5, 2, 26);
+        due("two, then one", x.move(2), MEANING);
+        due("that ahead is moved", x.at(5, 1), 1);
+        rowIs("that ahead is moved", x, 5, Probe.pattern(26, 5));
+        due("the next one is not", x.at(6, 1), 0);
+        rowIs("the next one", x, 6, Probe.pattern(25, 6));
+        due("none is free", x.told(1), 0);
+        due("still open", x.told(2), 5 + 5 + 3 + 1);
+        refused("none is free", x, p -> p.move(2), MEANING);
+        due("a month without rows needs no room", x.move(3), 0);
+        x.remove(2);
+        due("three are free", x.move(2), 1);
+
+        Probe cut = slowFileWithTwoLeft();
+        cut.put(5, 2, 26);
+        cut.put(6, 2, 25);
+        cut.cut(104);
+        due("the cut is over by that ahead", cut.move(2), MEANING);
+        due("the next write is not cut", cut.remove(6), 0);
     }
 
     // Promise 6
 
-    private static void promise6Cut() {
-        ShadowFiles x = new ShadowFiles();
-        throwsIt("P6 -2", RANGE, () -> cutting(x, -2));
-        throwsIt("P6 201", RANGE, () -> cutting(x, 201));
-        throwsIt("P6 min", RANGE, () -> cutting(x, Integer.MIN_VALUE));
-        throwsIt("P6 max", RANGE, () -> cutting(x, Integer.MAX_VALUE));
+    private static void nextWriteIsCut() {
+        Probe x = new Probe();
         x.cut(200);
-        tape(x, pattern(60, 0));
-        due("P6 200 is more than any", x.write(0, 0), 3);
+        due("200 is more than any", x.put(0, 0, 60), 3);
         x.cut(0);
         x.cut(-1);
-        due("P6 taken back", x.remove(0), 0);
+        due("-1: it is not", x.put(1, 0, 60), 3);
+        x.cut(-1);
         x.cut(0);
-        throwsIt("P6 refused", RANGE, () -> cutting(x, 201));
-        throwsIt("P6 a refused write leaves the cut", TURN, () -> x.write(0, 0));
-        throwsIt("P6 a refused remove leaves the cut", TURN, () -> x.remove(0));
-        due("P6 a move of none leaves the cut", x.move(0), 0);
-        x.poke(0, 0, 1);
-        x.open();
-        tape(x, pattern(3, 0));
-        due("P6 the cut is still ahead", x.write(0, 0), -1);
-        due("P6 the tape is used up by a cut write", x.told(4), 0);
-        due("P6 no row", x.open(), 0);
-        tape(x, pattern(3, 0));
-        due("P6 the cut is over", x.write(0, 0), 1);
-        x.cut(100);
-        put(x, 1, 0, 3);
-        put(x, 2, 0, 60);
-        due("P6 over by a whole write too", x.row(2, -1), 60);
-        x.poke(0, 700, 1);
+        due("0", x.remove(0), -1);
         x.cut(5);
         x.open();
-        due("P6 told while shut", x.remove(0), -1);
+        due("told while shut", x.remove(0), -1);
+        x.open();
+        x.cut(1);
+        x.cut(40);
+        due("the last one counts", x.remove(0), 0);
+
+        Probe y = withRow(0, 0, 60);
+        y.cut(0);
+        due("a refused write leaves it", y.write(0, 0), TURN);
+        due("a refused one taken away leaves it", y.remove(1), TURN);
+        due("a move of none leaves it", y.move(5), 0);
+        y.feed(0, 1);
+        y.shut();
+        due("opening leaves it", y.open(), 1);
+        due("then it comes", y.write(3, 0), -1);
+        y.open();
+        due("once", y.put(3, 0, 1), 1);
     }
 
-    private static int cutting(ShadowFiles x, int bytes) {
-        x.cut(bytes);
-        return 0;
-    }
-
-    private static void promise6CutEveryByte() {
-        for (int bytes = 0; bytes <= 137; bytes++) {
-            ShadowFiles before = rowsForCut();
-            ShadowFiles whole = rowsForCut();
-            tape(whole, pattern(55, 50));
-            whole.write(1, 8);
-            ShadowFiles x = rowsForCut();
-            tape(x, pattern(55, 50));
-            x.cut(bytes);
-            int answer = x.write(1, 8);
-            due("P6 cut " + bytes, answer, bytes < 136 ? -1 : 3);
-            cutPartIs("P6 cut places " + bytes, x, before, whole, bytes);
-            if (bytes < 136) {
-                throwsIt("P6 shut", TURN, () -> x.told(2));
-            }
-            due("P6 opened", x.open(), 3);
-            // The table is at its end already when the bytes that are missing are the same as before.
-            boolean isNew = Arrays.equals(part(x, 2), part(whole, 2));
-            rowIs("P6 row by cut " + bytes, x, 1, isNew ? pattern(55, 50) : pattern(30, 1));
-            rowIs("P6 row 0", x, 0, pattern(40, 0));
-            rowIs("P6 row 2", x, 2, pattern(5, 2));
+    private static void cutRange() {
+        Probe x = withRow(0, 0, 3);
+        x.cut(39);
+        for (int bytes : outside(-1, 200)) {
+            refused(bytes + " bytes", x, p -> p.cut(bytes), RANGE);
         }
-    }
-
-    private static ShadowFiles rowsForCut() {
-        ShadowFiles x = new ShadowFiles();
-        put(x, 0, 1, 40);
-        put(x, 1, 1, 30);
-        put(x, 2, 1, 5);
-        return x;
-    }
-
-    /** The new row goes to places 5, 6, 7 and the table to 1. */
-    private static void cutPartIs(String what, ShadowFiles x, ShadowFiles before, ShadowFiles whole, int bytes) {
-        int[] places = part(before, 0);
-        int[] newPlaces = part(whole, 0);
-        int[] tables = part(before, 2);
-        int[] newTables = part(whole, 2);
-        for (int i = 0; i < bytes && i < 136; i++) {
-            if (i < 96) {
-                places[5 * 32 + i] = newPlaces[5 * 32 + i];
-            } else {
-                tables[40 + i - 96] = newTables[40 + i - 96];
-            }
-        }
-        partIs(what, x, 0, places);
-        partIs(what, x, 2, tables);
-    }
-
-    private static void promise6CutMove() {
-        for (int bytes = 0; bytes <= 105; bytes++) {
-            ShadowFiles x = rowsForCut();
-            x.cut(bytes);
-            int[] places = part(x, 0);
-            int answer = x.move(1);
-            due("P6 cut move " + bytes, answer, bytes < 104 ? -1 : 3);
-            partIs("P6 cut move: the file stays", x, 0, places);
-            for (int i = bytes; i < 64 && bytes < 104; i++) {
-                due("P6 cut move: slow byte", x.byteAt(1, i), 0);
-            }
-            if (bytes >= 32 && bytes < 104) {
-                due("P6 cut move: first slow place", x.byteAt(1, 0), 2);
-            }
-            due("P6 cut move: opened", x.open(), 3);
-            due("P6 cut move: slow", x.at(0, 1), bytes < 104 ? 0 : 1);
-            rowIs("P6 cut move: row 0", x, 0, pattern(40, 0));
-        }
-        ShadowFiles x = rowsForCut();
-        x.cut(110);
-        due("P6 only the first write of a move is cut", x.move(1), 3);
+        due("the one told ahead stays", x.remove(0), -1);
+        due("0", x.cut(0), 0);
+        due("200", x.cut(200), 0);
+        due("-1", x.cut(-1), 0);
+        x.open();
+        due("none is ahead", x.remove(0), 0);
     }
 
     // Promise 7
 
-    private static void promise7Open() {
-        ShadowFiles x = new ShadowFiles();
-        due("P7 empty", x.open(), 0);
+    private static void openedAgain() {
+        Probe x = new Probe();
+        due("none", x.open(), 0);
         for (int row = 0; row < 12; row++) {
-            put(x, row, row, 1 + row);
-            due("P7 open", x.open(), row + 1);
+            x.put(row, row, 1 + row);
+            due("rows", x.open(), row + 1);
         }
         x.move(3);
-        due("P7 slow ones too", x.open(), 12);
+        due("slow ones too", x.open(), 12);
         x.poke(0, 1, 255);
-        due("P7 broken ones too", x.open(), 12);
-        due("P7 twice", x.open(), 12);
-        tape(x, pattern(9, 0));
-        x.cut(50);
-        x.poke(0, 767, 1);
-        x.open();
-        due("P7 the tape stays", x.told(4), 9);
-        due("P7 the cut stays", x.write(0, 0), -1);
-    }
-
-    private static void promise7Tables() {
-        ShadowFiles x = new ShadowFiles();
-        put(x, 0, 0, 3);
-        put(x, 1, 0, 3);
-        x.poke(2, 40 + 39, 1);
-        due("P7 the older table", x.open(), 1);
-        due("P7 its number", x.told(2), 1);
-        x.poke(2, 40 + 39, 1);
-        due("P7 the newer table", x.open(), 2);
-        x.poke(2, 20, 1);
-        due("P7 the only good one", x.open(), 2);
-        due("P7 the only good one is 1", x.told(3), 1);
-        x.poke(2, 41, 1);
-        due("P7 none", x.open(), 0);
-        toldIs("P7 none", x, 24, 16, 0, -1, 0);
-        put(x, 7, 0, 3);
-        due("P7 at first again", x.told(2), 1);
-        due("P7 in table 0", x.told(3), 0);
-        due("P7 alone", x.open(), 1);
-
-        tablesOf("P7 1 and 2", 1, 2, 1);
-        tablesOf("P7 2 and 1", 2, 1, 0);
-        tablesOf("P7 1 and 3", 1, 3, 0);
-        tablesOf("P7 3 and 1", 3, 1, 0);
-        tablesOf("P7 5 and 5", 5, 5, 0);
-        tablesOf("P7 250 and 1", 250, 1, 1);
-        tablesOf("P7 1 and 250", 1, 250, 0);
-        tablesOf("P7 249 and 250", 249, 250, 1);
-        tablesOf("P7 250 and 251", 250, 251, 0);
-        tablesOf("P7 251 and 1", 251, 1, 1);
-        tablesOf("P7 0 and 1", 0, 1, 1);
-        tablesOf("P7 255 and 0", 255, 0, -1);
-        tablesOf("P7 0 and 0", 0, 0, -1);
-    }
-
-    private static void tablesOf(String what, int number0, int number1, int counts) {
-        ShadowFiles x = new ShadowFiles();
-        put(x, 0, 0, 3);
-        put(x, 1, 0, 3);
-        forge(x, 2, 0, number0);
-        forge(x, 2, 40, number1);
-        x.open();
-        due(what, x.told(3), counts);
-        due(what + ": number", x.told(2), counts == 0 ? number0 : counts == 1 ? number1 : 0);
-        put(x, 2, 0, 3);
-        due(what + ": the other table is written", x.told(3), counts == 0 ? 1 : 0);
-        int number = counts == 0 ? number0 : counts == 1 ? number1 : 0;
-        due(what + ": the next number", x.told(2), number == 250 ? 1 : number + 1);
+        due("broken ones too", x.open(), 12);
+        due("it is open", x.at(0, 0), 1);
+        due("opened twice", x.open(), 12);
+        x.tape(Probe.pattern(9, 0));
+        x.poke(2, 1, 255);
+        x.poke(2, 1, 255);
+        due("harmed and mended", x.open(), 12);
+        due("the tape stays", x.told(4), 9);
+        x.poke(2, 30, 1);
+        due("by the newer table alone", x.open(), 12);
+        x.remove(5);
+        due("one was taken away", x.open(), 11);
+        x.poke(2, 39, 1);
+        due("by the older table", x.open(), 12);
+        x.poke(2, 79, 1);
+        due("by no table", x.open(), 0);
     }
 
     // Promise 8
 
-    private static void promise8Row() {
-        ShadowFiles x = new ShadowFiles();
-        throwsIt("P8 row -1", INDEX, () -> x.row(-1, 0));
-        throwsIt("P8 row 12", INDEX, () -> x.row(12, 0));
-        throwsIt("P8 i -2", INDEX, () -> x.row(0, -2));
-        throwsIt("P8 i min", INDEX, () -> x.row(0, Integer.MIN_VALUE));
-        throwsIt("P8 not there", TURN, () -> x.row(0, 0));
-        throwsIt("P8 not there ahead of no such byte", TURN, () -> x.row(0, 1000));
-        int[] bytes = pattern(60, 30);
-        bytes[25] = 255;
-        tape(x, bytes);
-        x.write(0, 0);
-        rowIs("P8", x, 0, bytes);
-        throwsIt("P8 i 60", INDEX, () -> x.row(0, 60));
-        throwsIt("P8 i max", INDEX, () -> x.row(0, Integer.MAX_VALUE));
+    private static void byteOfARow() {
+        int[] bytes = Probe.pattern(60, 30);
+        bytes[0] = 0;
+        bytes[24] = 255;
+        bytes[25] = 128;
+        bytes[59] = 127;
+        Probe x = new Probe();
+        x.tape(bytes);
+        x.write(6, 0);
+        x.put(7, 1, 3);
+        rowIs("all of them", x, 6, bytes);
         x.move(0);
-        rowIs("P8 slow", x, 0, bytes);
-        x.poke(1, 40, 1);
-        throwsIt("P8 shut", TURN, () -> x.row(0, 0));
-        throwsIt("P8 shut ahead of no such byte", TURN, () -> x.row(0, 1000));
-        throwsIt("P8 i -2 ahead of shut", INDEX, () -> x.row(0, -2));
-        x.open();
-        due("P8 broken", x.row(0, -1), 0);
-        throwsIt("P8 broken: no byte", INDEX, () -> x.row(0, 0));
+        rowIs("slow", x, 6, bytes);
+        rowIs("another row", x, 7, Probe.pattern(3, 7));
     }
 
-    private static void promise8Chains() {
-        ShadowFiles x = threePlaces();
-        x.poke(0, 32 + 10, 1);
-        brokenAt("P8 wrong in the middle", x, 2);
-        forgedIs("P8 holds none", 65, 0, true, 3, 0);
-        forgedIs("P8 holds 26", 1, 26, true, 1, 0);
-        forgedIs("P8 another month", 34, 5, true, 2, 0);
-        forgedIs("P8 no such place", 0, 25, true, 1, 0);
-        forgedIs("P8 place 23, which holds none", 0, 24, true, 2, 0);
-        forgedIs("P8 on itself", 0, 1, true, 1, 0);
-        forgedIs("P8 back to the first", 64, 1, true, 3, 0);
-        forgedIs("P8 behind three", 64, 4, true, 3, 0);
-        forgedIs("P8 last one first", 0, 0, false, 1, 25);
-        forgedIs("P8 a shorter one in the middle", 33, 7, false, 3, 25 + 7 + 10);
-
-        ShadowFiles y = threePlaces();
-        forge(y, 2, 1, 25);
-        y.open();
-        due("P8 no first place: there", y.at(0, 0), 1);
-        due("P8 no first place: broken", y.row(0, -1), 0);
-        due("P8 no first place: gone through", y.at(0, 3), 0);
-        due("P8 no first place: month", y.at(0, 2), -1);
-
-        // A place that was not free while its chain was broken goes on into a row written since.
-        ShadowFiles z = threePlaces();
-        z.poke(0, 10, 1);
-        z.open();
-        put(z, 1, 2, 50);
-        z.poke(0, 10, 1);
-        z.open();
-        due("P8 75 bytes", z.row(0, -1), 75);
-        due("P8 byte 74", z.row(0, 74), pattern(50, 1)[49]);
-        throwsIt("P8 byte 75", INDEX, () -> z.row(0, 75));
-        due("P8 shared places count once", z.told(0), 21);
-        due("P8 75 bytes are moved", z.move(2), 2);
-        due("P8 75 bytes in the slow file", z.row(0, -1), 75);
-        due("P8 slow byte 74", z.row(0, 74), pattern(50, 1)[49]);
-    }
-
-    private static ShadowFiles threePlaces() {
-        ShadowFiles x = new ShadowFiles();
-        put(x, 0, 2, 60);
-        return x;
-    }
-
-    /** A row of three places, month 2, one byte of it changed and the place's sum set right. */
-    private static void forgedIs(String what, int i, int value, boolean broken, int places, int bytes) {
-        ShadowFiles x = threePlaces();
-        forge(x, 0, i, value);
-        if (broken) {
-            brokenAt(what, x, places);
-            return;
+    private static void bytesOfARow() {
+        for (int n : new int[] {1, 24, 25, 26, 50, 51, 60}) {
+            due(n + " bytes", withRow(0, 0, n).row(0, -1), n);
         }
+        Probe x = withRow(0, 0, 30);
+        x.poke(0, 40, 1);
         x.open();
-        due(what + ": bytes", x.row(0, -1), bytes);
-        due(what + ": places", x.at(0, 3), places);
-        due(what + ": month", x.at(0, 2), 2);
-        due(what + ": last byte", x.row(0, bytes - 1), pattern(60, 0)[places == 1 ? 24 : 59]);
+        due("broken", x.row(0, -1), 0);
+        x.poke(0, 40, 1);
+        x.open();
+        due("mended", x.row(0, -1), 30);
+        x.move(0);
+        x.poke(1, 0, 1);
+        x.open();
+        due("a broken slow one", x.row(0, -1), 0);
     }
 
-    private static void brokenAt(String what, ShadowFiles x, int places) {
+    private static void rowIndex() {
+        Probe x = withRow(0, 0, 3);
+        for (int row : outside(0, 11)) {
+            refused("row " + row, x, p -> p.row(row, 0), INDEX);
+            due("how many of row " + row, x.row(row, -1), INDEX);
+        }
+        for (int i : new int[] {-2, -3, -255, -256, Integer.MIN_VALUE}) {
+            refused("byte " + i, x, p -> p.row(0, i), INDEX);
+            due("byte " + i + " of one that is not there", x.row(1, i), INDEX);
+        }
+    }
+
+    private static void rowTurn() {
+        Probe x = withRow(0, 0, 3);
+        for (int row = 1; row < 12; row++) {
+            due("row " + row + " is not there", x.row(row, 0), TURN);
+            due("how many of row " + row, x.row(row, -1), TURN);
+        }
+        x.shut();
+        refused("shut", x, p -> p.row(0, 0), TURN);
+        refused("shut: how many", x, p -> p.row(0, -1), TURN);
+        due("shut: not there", x.row(1, 0), TURN);
         x.open();
-        due(what + ": there", x.at(0, 0), 1);
-        due(what + ": bytes", x.row(0, -1), 0);
-        due(what + ": month", x.at(0, 2), -1);
-        due(what + ": places", x.at(0, 3), places);
-        due(what + ": free", x.told(0), 24 - places);
-        due(what + ": not moved", x.move(2), 0);
+        due("opened", x.row(0, -1), 3);
+    }
+
+    private static void rowIndexAgain() {
+        for (int n : new int[] {1, 25, 26, 60}) {
+            Probe x = withRow(0, 0, n);
+            due("the last one of " + n, x.row(0, n - 1), Probe.pattern(n, 0)[n - 1]);
+            refused("the one behind it", x, p -> p.row(0, n), INDEX);
+            due("far behind it", x.row(0, Integer.MAX_VALUE), INDEX);
+        }
+        Probe x = withRow(0, 0, 30);
+        x.poke(0, 40, 1);
+        x.open();
+        refused("broken: byte 0", x, p -> p.row(0, 0), INDEX);
+        due("broken: byte 24, whose place is right", x.row(0, 24), INDEX);
     }
 
     // Promise 9
 
-    private static void promise9At() {
-        ShadowFiles x = new ShadowFiles();
-        throwsIt("P9 row -1", INDEX, () -> x.at(-1, 0));
-        throwsIt("P9 row 12", INDEX, () -> x.at(12, 0));
-        throwsIt("P9 what -1", INDEX, () -> x.at(0, -1));
-        throwsIt("P9 what 4", INDEX, () -> x.at(0, 4));
-        due("P9 not there", x.at(0, 0), 0);
-        for (int what = 1; what <= 3; what++) {
-            int w = what;
-            throwsIt("P9 not there: " + what, TURN, () -> x.at(0, w));
+    private static void whetherItIsThere() {
+        Probe x = withRow(4, 10, 26);
+        for (int row = 0; row < 12; row++) {
+            due("row " + row, x.at(row, 0), row == 4 ? 1 : 0);
         }
-        put(x, 0, 10, 26);
-        due("P9 there", x.at(0, 0), 1);
-        due("P9 not slow", x.at(0, 1), 0);
-        due("P9 month", x.at(0, 2), 10);
-        due("P9 places", x.at(0, 3), 2);
         x.move(10);
-        due("P9 slow: there", x.at(0, 0), 1);
-        due("P9 slow", x.at(0, 1), 1);
-        due("P9 slow: month", x.at(0, 2), 10);
-        due("P9 slow: places", x.at(0, 3), 2);
-        x.poke(1, 32 + 31, 128);
-        for (int what = 0; what <= 3; what++) {
-            int w = what;
-            throwsIt("P9 shut: " + what, TURN, () -> x.at(0, w));
-        }
-        throwsIt("P9 index ahead of shut", INDEX, () -> x.at(0, 4));
+        due("slow", x.at(4, 0), 1);
+        x.poke(1, 9, 1);
         x.open();
-        due("P9 broken: slow", x.at(0, 1), 1);
-        due("P9 broken: month", x.at(0, 2), -1);
-        due("P9 broken: places", x.at(0, 3), 2);
+        due("broken", x.at(4, 0), 1);
+        x.remove(4);
+        due("taken away", x.at(4, 0), 0);
+    }
+
+    private static void whetherItIsSlow() {
+        Probe x = withRow(4, 10, 26);
+        due("written", x.at(4, 1), 0);
+        x.move(10);
+        due("moved", x.at(4, 1), 1);
+        x.poke(1, 9, 1);
+        x.open();
+        due("broken", x.at(4, 1), 1);
+        x.put(4, 10, 26);
+        due("written again", x.at(4, 1), 0);
+    }
+
+    private static void itsMonth() {
+        for (int month = 0; month < 12; month++) {
+            Probe x = withRow(4, month, 60);
+            due("month", x.at(4, 2), month);
+            x.move(month);
+            due("slow: month", x.at(4, 2), month);
+            x.poke(1, 70, 1);
+            x.open();
+            due("broken: month", x.at(4, 2), -1);
+        }
+    }
+
+    private static void itsPlaces() {
+        for (int n : new int[] {1, 25, 26, 50, 51, 60}) {
+            Probe x = withRow(4, 0, n);
+            due("places of " + n, x.at(4, 3), (n + 24) / 25);
+            x.move(0);
+            due("slow places of " + n, x.at(4, 3), (n + 24) / 25);
+        }
+        for (int k = 0; k < 3; k++) {
+            Probe x = withRow(4, 0, 60);
+            x.poke(0, k * 32 + 9, 1);
+            x.open();
+            due("broken in place " + k, x.at(4, 3), k + 1);
+        }
+        Probe none = withRow(4, 0, 60).forge(2, 1 + 4, 25);
+        none.open();
+        due("there is no first place", none.at(4, 3), 0);
+    }
+
+    private static void atIndex() {
+        Probe x = withRow(0, 0, 3);
+        for (int what = 0; what <= 3; what++) {
+            int asked = what;
+            for (int row : outside(0, 11)) {
+                due("row " + row, x.at(row, what), INDEX);
+            }
+            refused("row 12", x, p -> p.at(12, asked), INDEX);
+        }
+        for (int what : outside(0, 3)) {
+            refused("what " + what, x, p -> p.at(0, what), INDEX);
+            due("what " + what + " of one that is not there", x.at(1, what), INDEX);
+        }
+    }
+
+    private static void atTurn() {
+        Probe x = withRow(0, 0, 3);
+        due("0 of one that is not there", x.at(1, 0), 0);
+        for (int what = 1; what <= 3; what++) {
+            int asked = what;
+            refused(what + " of one that is not there", x, p -> p.at(1, asked), TURN);
+        }
+        x.shut();
+        for (int what = 0; what <= 3; what++) {
+            int asked = what;
+            refused("shut: " + what, x, p -> p.at(0, asked), TURN);
+            due("shut, not there: " + what, x.at(1, what), TURN);
+        }
+        x.open();
+        due("opened", x.at(0, 0), 1);
     }
 
     // Promise 10
 
-    private static void promise10Told() {
-        ShadowFiles x = new ShadowFiles();
-        throwsIt("P10 -1", INDEX, () -> x.told(-1));
-        throwsIt("P10 5", INDEX, () -> x.told(5));
-        toldIs("P10 empty", x, 24, 16, 0, -1, 0);
-        put(x, 0, 0, 60);
-        toldIs("P10 one", x, 21, 16, 1, 0, 0);
-        put(x, 1, 0, 26);
-        x.feed(0, 5);
-        toldIs("P10 two", x, 19, 16, 2, 1, 5);
-        x.move(0);
-        toldIs("P10 moved", x, 24, 11, 4, 1, 5);
-        x.poke(1, 0, 1);
-        for (int what = 0; what <= 3; what++) {
-            int w = what;
-            throwsIt("P10 shut: " + what, TURN, () -> x.told(w));
+    private static void toldFree() {
+        Probe x = new Probe();
+        due("all", x.told(0), 24);
+        int[] lengths = {60, 50, 25, 1};
+        int[] free = {21, 19, 18, 17};
+        for (int row = 0; row < 4; row++) {
+            x.put(row, row, lengths[row]);
+            due("behind row " + row, x.told(0), free[row]);
         }
-        throwsIt("P10 index ahead of shut", INDEX, () -> x.told(5));
-        due("P10 shut: tape", x.told(4), 5);
+        x.move(0);
+        due("row 0 is slow", x.told(0), 20);
+        x.remove(1);
+        due("row 1 is gone", x.told(0), 22);
+        due("none", fullFile().told(0), 0);
+    }
+
+    private static void toldSlowFree() {
+        Probe x = withRow(0, 0, 60);
+        x.put(1, 0, 26);
+        due("all", x.told(1), 16);
+        x.move(0);
+        due("but five", x.told(1), 11);
+        x.remove(0);
+        due("but two", x.told(1), 14);
+        x.put(1, 0, 26);
+        due("all again", x.told(1), 16);
+        Probe y = slowFileWithTwoLeft();
+        due("two", y.told(1), 2);
+        y.put(5, 1, 50);
+        y.move(1);
+        due("none", y.told(1), 0);
+    }
+
+    private static void toldNumber() {
+        Probe x = new Probe();
+        due("none", x.told(2), 0);
+        x.put(0, 0, 3);
+        due("1", x.told(2), 1);
+        x.put(1, 0, 3);
+        due("2", x.told(2), 2);
+        x.poke(2, 79, 1);
         x.open();
-        toldIs("P10 broken at its first", x, 24, 13, 4, 1, 5);
+        due("1 again", x.told(2), 1);
+        x.poke(2, 39, 1);
+        x.open();
+        due("none again", x.told(2), 0);
+        Probe y = withRow(0, 0, 3).forge(2, 0, 250);
+        y.open();
+        due("250", y.told(2), 250);
+    }
+
+    private static void toldTable() {
+        Probe x = new Probe();
+        due("none", x.told(3), -1);
+        x.put(0, 0, 3);
+        due("0", x.told(3), 0);
+        x.put(1, 0, 3);
+        due("1", x.told(3), 1);
+        x.poke(2, 79, 1);
+        x.open();
+        due("0 again", x.told(3), 0);
+        x.poke(2, 39, 1);
+        x.open();
+        due("none again", x.told(3), -1);
+        x.poke(2, 79, 1);
+        x.open();
+        due("1 alone", x.told(3), 1);
+    }
+
+    private static void toldTape() {
+        Probe x = new Probe();
+        due("none", x.told(4), 0);
+        x.feed(0, 5);
+        due("5", x.told(4), 5);
+        x.shut();
+        due("also when it is shut", x.told(4), 5);
+        x.open();
+        x.write(0, 0);
+        due("used up", x.told(4), 0);
+        x.tape(Probe.pattern(60, 0));
+        due("60", x.told(4), 60);
+    }
+
+    private static void toldIndex() {
+        Probe x = withRow(0, 0, 3);
+        for (int what : outside(0, 4)) {
+            refused("what " + what, x, p -> p.told(what), INDEX);
+        }
+        x.shut();
+        for (int what : outside(0, 4)) {
+            due("shut: what " + what, x.told(what), INDEX);
+        }
+    }
+
+    private static void toldTurn() {
+        Probe x = withRow(0, 0, 3);
+        x.shut();
+        for (int what = 0; what <= 3; what++) {
+            int asked = what;
+            refused("shut by a poke: " + what, x, p -> p.told(asked), TURN);
+        }
+        due("shut by a poke: 4", x.told(4), 0);
+        x.open();
+        toldIs("opened", x, 23, 16, 1, 0, 0);
+        x.cut(0);
+        x.remove(0);
+        for (int what = 0; what <= 3; what++) {
+            due("shut by the power: " + what, x.told(what), TURN);
+        }
+        due("shut by the power: 4", x.told(4), 0);
     }
 
     // Promise 11
 
-    private static void promise11Wrong() {
-        ShadowFiles x = new ShadowFiles();
-        throwsIt("P11 what -1", INDEX, () -> x.wrong(-1, 0));
-        throwsIt("P11 what 3", INDEX, () -> x.wrong(3, 0));
-        throwsIt("P11 k -1", INDEX, () -> x.wrong(0, -1));
-        throwsIt("P11 k min", INDEX, () -> x.wrong(2, Integer.MIN_VALUE));
-        for (int what = 0; what < 3; what++) {
-            due("P11 none", x.wrong(what, 0), -1);
-            due("P11 none of many", x.wrong(what, Integer.MAX_VALUE), -1);
+    /** The k-th ones, and none behind them. */
+    private static void wrongAre(String what, Probe x, int part, int... want) {
+        for (int k = 0; k < want.length; k++) {
+            due(what + ": " + k, x.wrong(part, k), want[k]);
         }
-        put(x, 4, 0, 60);
-        put(x, 1, 0, 30);
-        put(x, 2, 1, 60);
+        due(what + ": no more", x.wrong(part, want.length), -1);
+    }
+
+    private static void wrongPlaces() {
+        Probe x = withRow(4, 0, 60);
+        x.put(1, 0, 30);
+        x.put(2, 1, 60);
+        wrongAre("none", x, 0);
         x.poke(0, 5 * 32 + 31, 1);
-        due("P11 the file as it stands while shut", x.wrong(0, 0), 5);
+        wrongAre("one", x, 0, 5);
         x.poke(0, 3 * 32 + 7, 1);
         x.poke(0, 2 * 32 + 7, 1);
+        wrongAre("by numbers, not by rows", x, 0, 2, 3, 5);
         x.poke(0, 20 * 32, 1);
-        due("P11 by numbers: 0", x.wrong(0, 0), 2);
-        due("P11 by numbers: 1", x.wrong(0, 1), 3);
-        due("P11 by numbers: 2", x.wrong(0, 2), 5);
-        due("P11 not one that no chain goes through", x.wrong(0, 3), -1);
-        due("P11 none slow", x.wrong(1, 0), -1);
+        wrongAre("not one that no chain goes through", x, 0, 2, 3, 5);
         x.poke(0, 6 * 32 + 7, 1);
-        due("P11 a chain does not go on behind a wrong one", x.wrong(0, 3), -1);
-        due("P11 open is the same", x.open() + x.wrong(0, 2), 8);
+        wrongAre("not one behind a wrong one", x, 0, 2, 3, 5);
         x.poke(0, 0, 1);
-        due("P11 place 0", x.wrong(0, 0), 0);
-        due("P11 place 2 is behind it no more", x.wrong(0, 1), 3);
+        wrongAre("place 0, and 2 is behind it", x, 0, 0, 3, 5);
+        x.poke(1, 0, 1);
+        wrongAre("not a slow one", x, 1);
 
-        ShadowFiles y = new ShadowFiles();
-        put(y, 0, 0, 60);
-        put(y, 1, 0, 60);
-        y.move(0);
-        y.poke(1, 5 * 32, 1);
-        y.poke(1, 32, 1);
-        due("P11 slow 0", y.wrong(1, 0), 1);
-        due("P11 slow 1", y.wrong(1, 1), 5);
-        due("P11 slow 2", y.wrong(1, 2), -1);
-        due("P11 none of the file", y.wrong(0, 0), -1);
+        Probe y = fullFile();
+        y.poke(0, 767, 1);
+        wrongAre("place 23", y, 0, 23);
+        Probe z = withRow(0, 0, 3).forge(0, 1, 0);
+        wrongAre("not right, but its sum is", z, 0);
+        Probe shared = withRow(0, 0, 3).forge(2, 2, 1);
+        shared.poke(0, 9, 1);
+        wrongAre("a place of two rows once", shared, 0, 0);
+        Probe slow = withRow(0, 0, 3);
+        slow.move(0);
+        slow.poke(0, 9, 1);
+        wrongAre("not one of a row that is slow", slow, 0);
+    }
+
+    private static void wrongSlowPlaces() {
+        Probe x = withRow(0, 0, 60);
+        x.put(1, 0, 60);
+        x.move(0);
+        wrongAre("none", x, 1);
+        x.poke(1, 5 * 32, 1);
+        x.poke(1, 32, 1);
+        x.poke(1, 9 * 32, 1);
+        wrongAre("by numbers", x, 1, 1, 5);
+        x.poke(1, 0, 1);
+        wrongAre("slow place 0", x, 1, 0, 5);
+        wrongAre("none of the file", x, 0);
+        Probe y = slowFileWithTwoLeft();
+        y.put(5, 1, 50);
+        y.move(1);
+        y.poke(1, 511, 1);
+        wrongAre("slow place 15", y, 1, 15);
+        Probe file = withRow(0, 0, 3);
+        file.poke(0, 9, 1);
+        wrongAre("not by a row that is not slow", file, 1);
+    }
+
+    private static void wrongTables() {
+        Probe x = new Probe();
+        wrongAre("both are all 0", x, 2);
+        x.poke(2, 50, 4);
+        wrongAre("not all 0, without a number", x, 2, 1);
+        x.poke(2, 0, 4);
+        wrongAre("both", x, 2, 0, 1);
+        x.poke(2, 50, 4);
+        wrongAre("table 0", x, 2, 0);
+        x.poke(2, 0, 4);
+        wrongAre("all 0 again", x, 2);
+        for (int i = 0; i < 80; i++) {
+            x.poke(2, i, 1);
+            wrongAre("byte " + i, x, 2, i / 40);
+            x.poke(2, i, 1);
+        }
+        Probe y = withRow(0, 0, 3);
+        y.put(1, 0, 3);
+        wrongAre("written", y, 2);
         y.poke(2, 79, 1);
-        due("P11 table 1", y.wrong(2, 0), 1);
-        due("P11 by the older table: row 0 alone is slow", y.wrong(1, 1), -1);
-        y.poke(2, 0, 1);
-        due("P11 both tables: 0", y.wrong(2, 0), 0);
-        due("P11 both tables: 1", y.wrong(2, 1), 1);
-        due("P11 both tables: 2", y.wrong(2, 2), -1);
-        due("P11 no table: no chains", y.wrong(1, 0), -1);
-
-        ShadowFiles z = new ShadowFiles();
-        z.poke(2, 50, 4);
-        due("P11 a table without a number", z.wrong(2, 0), 1);
-        due("P11 the one that is all 0 is none", z.wrong(2, 1), -1);
-        ShadowFiles c = new ShadowFiles();
-        c.feed(1, 1);
-        c.cut(40);
-        c.write(0, 0);
-        due("P11 a table that was cut", c.wrong(2, 0), 0);
-        ShadowFiles e = new ShadowFiles();
-        put(e, 0, 0, 3);
-        forge(e, 0, 1, 0);
-        due("P11 a place that is not right, but its sum is", e.wrong(0, 0), -1);
+        wrongAre("harmed", y, 2, 1);
+        Probe number = withRow(0, 0, 3).forge(2, 0, 251);
+        wrongAre("not good, but its sum is right", number, 2);
+        Probe cut = new Probe();
+        cut.feed(1, 1);
+        cut.cut(40);
+        cut.write(0, 0);
+        wrongAre("a cut one", cut, 2, 0);
     }
 
-    // Promises 3, 10 and 11: a row whose bytes for both files are not 0 is slow, and has one chain
-
-    /** Row 0 is slow, in slow places 0 and 1, and its byte for the file names place 0; row 1 has place 2. */
-    private static ShadowFiles namedInBoth() {
-        ShadowFiles x = new ShadowFiles();
-        put(x, 0, 4, 30);
-        put(x, 1, 5, 3);
-        x.move(4);
-        forge(x, 2, 1, 1);
+    private static void wrongAsItStands() {
+        Probe x = withRow(0, 0, 60);
+        x.put(1, 0, 60);
+        x.move(0);
+        x.poke(1, 0, 1);
+        x.poke(1, 3 * 32, 1);
+        wrongAre("shut", x, 1, 0, 3);
         x.open();
-        return x;
+        wrongAre("opened", x, 1, 0, 3);
+        x.poke(2, 40 + 5, 1);
+        wrongAre("shut: the newer table is wrong", x, 2, 1);
+        wrongAre("shut: by the older one row 0 alone is slow", x, 1, 0);
+        x.poke(0, 3 * 32, 1);
+        wrongAre("shut: by the older one row 1 is not", x, 0, 3);
+        x.poke(2, 5, 1);
+        wrongAre("shut: by no table", x, 1);
+        wrongAre("shut: by no table", x, 0);
+        x.poke(2, 5, 1);
+        x.poke(2, 40 + 5, 1);
+        wrongAre("shut: by the newer one again", x, 1, 0, 3);
+        x.poke(1, 0, 1);
+        wrongAre("shut: mended", x, 1, 3);
+
+        Probe cut = withRow(0, 0, 60);
+        cut.poke(0, 9, 1);
+        cut.open();
+        cut.cut(0);
+        cut.remove(0);
+        wrongAre("shut by the power", cut, 0, 0);
     }
 
-    private static void rowNamedInBothFiles() {
-        ShadowFiles x = namedInBoth();
-        due("Both: slow", x.at(0, 1), 1);
-        rowIs("Both: bytes", x, 0, pattern(30, 0));
-        toldIs("Both", x, 23, 14, 3, 0, 0);
-        due("Both: not moved again", x.move(4), 0);
-        x.poke(0, 7, 1);
-        due("Both: no chain goes through place 0", x.wrong(0, 0), -1);
-        x.poke(1, 7, 1);
-        due("Both: the slow chain is its own", x.wrong(1, 0), 0);
-        x.poke(1, 7, 1);
-        x.open();
-        tape(x, pattern(51, 9));
-        due("Both: written", x.write(2, 5), 3);
-        due("Both: the lowest free place is 0", x.byteAt(2, 40 + 1 + 2), 1);
-        due("Both: then 1", x.byteAt(0, 0), 2);
-        due("Both: then 3", x.byteAt(0, 32), 4);
-        rowIs("Both: the slow row stays", x, 0, pattern(30, 0));
-        toldIs("Both: behind a write", x, 20, 14, 4, 1, 0);
-        due("Both: removed", x.remove(0), 0);
-        due("Both: not there", x.at(0, 0), 0);
-        toldIs("Both: behind remove", x, 20, 16, 5, 0, 0);
-
-        ShadowFiles y = namedInBoth();
-        forge(y, 2, 13, 200);
-        y.open();
-        due("Both: no such slow place: slow", y.at(0, 1), 1);
-        due("Both: no such slow place: broken", y.at(0, 2), -1);
-        toldIs("Both: no such slow place", y, 23, 16, 3, 0, 0);
-        put(y, 0, 4, 26);
-        due("Both: written again, not slow", y.at(0, 1), 0);
-        toldIs("Both: written again", y, 21, 16, 4, 1, 0);
+    private static void wrongNotSoMany() {
+        Probe x = withRow(0, 0, 60);
+        for (int what = 0; what < 3; what++) {
+            due("none of " + what, x.wrong(what, 0), -1);
+            due("none of many of " + what, x.wrong(what, Integer.MAX_VALUE), -1);
+        }
+        x.poke(0, 0, 1);
+        x.poke(2, 0, 1);
+        x.poke(2, 0, 1);
+        due("one", x.wrong(0, 0), 0);
+        due("not two", x.wrong(0, 1), -1);
+        due("not many", x.wrong(0, Integer.MAX_VALUE), -1);
+        x.poke(2, 0, 1);
+        due("one table", x.wrong(2, 0), 0);
+        due("not two tables", x.wrong(2, 1), -1);
     }
 
-    private static void rowNamedInBothFilesSharesAPlace() {
-        ShadowFiles x = namedInBoth();
-        forge(x, 2, 1, 3);
+    private static void wrongIndex() {
+        Probe x = withRow(0, 0, 60);
+        x.poke(0, 0, 1);
         x.open();
-        due("Both: place 2 is row 1's still", x.told(0), 23);
-        x.poke(0, 2 * 32 + 9, 1);
-        due("Both: and is wrong", x.wrong(0, 0), 2);
-        x.open();
-        put(x, 3, 0, 60);
-        due("Both: and is not taken", x.byteAt(0, 32), 4);
+        for (int what : outside(0, 2)) {
+            refused("what " + what, x, p -> p.wrong(what, 0), INDEX);
+        }
+        for (int k : new int[] {-1, -2, -256, Integer.MIN_VALUE}) {
+            for (int what = 0; what < 3; what++) {
+                due("k " + k + " of " + what, x.wrong(what, k), INDEX);
+            }
+            refused("k " + k, x, p -> p.wrong(0, k), INDEX);
+        }
+        x.shut();
+        due("shut: what", x.wrong(3, 0), INDEX);
+        due("shut: k", x.wrong(0, -1), INDEX);
     }
 
     // Promise 12
 
-    private static void promise12ByteAt() {
-        ShadowFiles x = new ShadowFiles();
+    private static void bytesOfTheFile() {
+        Probe x = new Probe();
         for (int what = 0; what < 3; what++) {
-            int w = what;
-            int size = size(what);
-            throwsIt("P12 i -1", INDEX, () -> x.byteAt(w, -1));
-            throwsIt("P12 i behind", INDEX, () -> x.byteAt(w, size));
-            throwsIt("P12 i max", INDEX, () -> x.byteAt(w, Integer.MAX_VALUE));
-            throwsIt("P12 i min", INDEX, () -> x.byteAt(w, Integer.MIN_VALUE));
-            due("P12 last one", x.byteAt(what, size - 1), 0);
+            for (int i : new int[] {0, 31, 32, Probe.size(what) - 1}) {
+                due("byte " + i + " of " + what, x.byteAt(what, i), 0);
+                x.poke(what, i, 255 - what);
+                due("byte " + i + " of " + what + " as it stands", x.byteAt(what, i), 255 - what);
+            }
         }
-        throwsIt("P12 what -1", INDEX, () -> x.byteAt(-1, 0));
-        throwsIt("P12 what 3", INDEX, () -> x.byteAt(3, 0));
-        x.feed(0xFFL, 1);
-        x.write(0, 0);
-        due("P12 without a sign", x.byteAt(0, 3), 255);
-        x.poke(1, 511, 200);
-        due("P12 also when it is shut", x.byteAt(1, 511), 200);
+        Probe y = new Probe();
+        y.feed(0xFF41, 2);
+        y.write(1, 7);
+        bytesAre("a place", y.bytes(0, 0, 6), new int[] {0, 2, 7, 255, 65, 0});
+        bytesAre("a table", y.bytes(2, 0, 4), new int[] {1, 0, 1, 0});
+        y.move(7);
+        bytesAre("a slow place", y.bytes(1, 0, 6), new int[] {0, 2, 7, 255, 65, 0});
+        due("the table that is slow", y.byteAt(2, 40 + 13 + 1), 1);
+        y.shut();
+        due("also when it is shut", y.byteAt(1, 3), 255);
+    }
+
+    private static void byteAtIndex() {
+        Probe x = withRow(0, 0, 60);
+        for (int what = 0; what < 3; what++) {
+            int part = what;
+            int size = Probe.size(what);
+            due("the first of " + what, x.byteAt(what, 0), what == 1 ? 0 : what == 0 ? 2 : 1);
+            for (int i : outside(0, size - 1)) {
+                refused("byte " + i + " of " + what, x, p -> p.byteAt(part, i), INDEX);
+            }
+        }
+        for (int what : outside(0, 2)) {
+            refused("what " + what, x, p -> p.byteAt(what, 0), INDEX);
+        }
     }
 
     // Promise 13
 
-    private static void promise13Poke() {
-        ShadowFiles x = new ShadowFiles();
-        throwsIt("P13 what -1", INDEX, () -> poking(x, -1, 0, 1));
-        throwsIt("P13 what 3", INDEX, () -> poking(x, 3, 0, 1));
+    private static void xoredByAMask() {
         for (int what = 0; what < 3; what++) {
-            int w = what;
-            int size = size(what);
-            throwsIt("P13 i -1", INDEX, () -> poking(x, w, -1, 1));
-            throwsIt("P13 i behind", INDEX, () -> poking(x, w, size, 1));
-            throwsIt("P13 mask 0", RANGE, () -> poking(x, w, size - 1, 0));
-            throwsIt("P13 mask 256", RANGE, () -> poking(x, w, 0, 256));
-            throwsIt("P13 mask -1", RANGE, () -> poking(x, w, 0, -1));
-            throwsIt("P13 index ahead of range", INDEX, () -> poking(x, w, size, 0));
-        }
-        due("P13 refused: still open", x.told(0), 24);
-        for (int what = 0; what < 3; what++) {
-            int[] want = part(x, what);
-            int last = size(what) - 1;
-            want[last] = 0xA5;
-            x.poke(what, last, 0xA5);
-            partIs("P13 one byte", x, what, want);
-            want[last] = 0x5A;
-            x.poke(what, last, 0xFF);
-            partIs("P13 xored", x, what, want);
-            throwsIt("P13 shut", TURN, () -> x.told(0));
-            x.open();
-        }
-    }
-
-    private static int poking(ShadowFiles x, int what, int i, int mask) {
-        x.poke(what, i, mask);
-        return 0;
-    }
-
-    // Terms
-
-    private static void refusedChangesNothing() {
-        ShadowFiles x = rowsForCut();
-        tape(x, pattern(9, 0));
-        int[][] before = {part(x, 0), part(x, 1), part(x, 2)};
-        throwsIt("T write", INDEX, () -> x.write(12, 0));
-        throwsIt("T write", RANGE, () -> x.write(0, 12));
-        throwsIt("T feed", RANGE, () -> x.feed(0, 0));
-        throwsIt("T feed", RANGE, () -> x.feed(0, 52));
-        throwsIt("T remove", TURN, () -> x.remove(5));
-        throwsIt("T move", RANGE, () -> x.move(12));
-        throwsIt("T cut", RANGE, () -> cutting(x, 300));
-        throwsIt("T poke", RANGE, () -> poking(x, 0, 0, 0));
-        throwsIt("T poke", INDEX, () -> poking(x, 0, 768, 1));
-        for (int what = 0; what < 3; what++) {
-            partIs("T bytes", x, what, before[what]);
-        }
-        toldIs("T refused", x, 19, 16, 3, 0, 9);
-    }
-
-    // Helpers
-
-    private static int[] pattern(int n, int seed) {
-        int[] bytes = new int[n];
-        for (int i = 0; i < n; i++) {
-            bytes[i] = (seed * 41 + i * 37 + 200) & 0xFF;
-        }
-        return bytes;
-    }
-
-    private static void tape(ShadowFiles x, int[] bytes) {
-        for (int from = 0; from < bytes.length; from += 8) {
-            int n = Math.min(8, bytes.length - from);
-            long packed = 0x0101010101010101L;
-            for (int i = 0; i < n; i++) {
-                packed = (packed << 8) | bytes[from + i];
-            }
-            x.feed(packed, n);
-        }
-    }
-
-    /** Row's bytes are pattern(n, row). */
-    private static void put(ShadowFiles x, int row, int month, int n) {
-        tape(x, pattern(n, row));
-        x.write(row, month);
-    }
-
-    private static int size(int what) {
-        return what == 0 ? 768 : what == 1 ? 512 : 80;
-    }
-
-    private static int[] part(ShadowFiles x, int what) {
-        int[] bytes = new int[size(what)];
-        for (int i = 0; i < bytes.length; i++) {
-            bytes[i] = x.byteAt(what, i);
-        }
-        return bytes;
-    }
-
-    private static void place(int[] file, int place, int link, int month, int[] bytes, int from, int n) {
-        int at = place * 32;
-        file[at] = link;
-        file[at + 1] = n;
-        file[at + 2] = month;
-        System.arraycopy(bytes, from, file, at + 3, n);
-        sum(file, at, 32);
-    }
-
-    private static void sum(int[] bytes, int from, int size) {
-        int s = 0;
-        for (int i = from; i < from + size - 4; i++) {
-            int x = s ^ bytes[i];
-            s = ((x << 23) | (x >>> 9)) * 0x9E3779B1;
-        }
-        for (int i = 0; i < 4; i++) {
-            bytes[from + size - 1 - i] = (s >>> (8 * i)) & 0xFF;
-        }
-    }
-
-    /** Sets one byte and makes the sum of its place or table right. */
-    private static void forge(ShadowFiles x, int what, int i, int value) {
-        int size = what == 2 ? 40 : 32;
-        int from = i / size * size;
-        int[] bytes = part(x, what);
-        bytes[i] = value;
-        sum(bytes, from, size);
-        for (int k = from; k < from + size; k++) {
-            int mask = bytes[k] ^ x.byteAt(what, k);
-            if (mask != 0) {
-                x.poke(what, k, mask);
+            Probe x = withRow(0, 0, 60);
+            int last = Probe.size(what) - 1;
+            for (int i : new int[] {0, last}) {
+                int[] want = x.part(what);
+                for (int mask : new int[] {1, 0xA5, 255}) {
+                    due("mask " + mask, x.poke(what, i, mask), 0);
+                    want[i] ^= mask;
+                    partIs("byte " + i + " alone, by mask " + mask, x, what, want);
+                }
             }
         }
+        Probe x = withRow(0, 0, 60);
+        int[] places = x.part(0);
+        x.poke(1, 40, 7);
+        partIs("a slow byte is not the file's", x, 0, places);
+        x.poke(0, 40, 7);
+        x.poke(0, 40, 7);
+        partIs("twice is as it was", x, 0, places);
     }
 
-    private static void toldIs(String what, ShadowFiles x, int... want) {
-        for (int k = 0; k < want.length; k++) {
-            due(what + ": told " + k, x.told(k), want[k]);
+    private static void shutByAPoke() {
+        for (int what = 0; what < 3; what++) {
+            Probe x = withRow(0, 0, 60);
+            x.feed(1, 1);
+            x.poke(what, Probe.size(what) - 1, 1);
+            due("told", x.told(0), TURN);
+            due("write", x.write(0, 0), TURN);
+            due("remove", x.remove(0), TURN);
+            due("move", x.move(0), TURN);
+            due("row", x.row(0, 0), TURN);
+            due("at", x.at(0, 0), TURN);
+            due("a poke of a shut file", x.poke(what, 0, 1), 0);
+            due("still shut", x.told(0), TURN);
+            x.poke(what, 0, 1);
+            due("opened", x.open(), 1);
         }
     }
 
-    private static void rowIs(String what, ShadowFiles x, int row, int[] want) {
-        due(what + ": length", x.row(row, -1), want.length);
-        for (int i = 0; i < want.length && i < x.row(row, -1); i++) {
-            due(what + ": byte " + i, x.row(row, i), want[i]);
+    private static void pokeIndex() {
+        Probe x = withRow(0, 0, 60);
+        for (int what = 0; what < 3; what++) {
+            int part = what;
+            for (int i : outside(0, Probe.size(what) - 1)) {
+                refused("byte " + i + " of " + what, x, p -> p.poke(part, i, 1), INDEX);
+            }
         }
+        for (int what : outside(0, 2)) {
+            refused("what " + what, x, p -> p.poke(what, 0, 1), INDEX);
+        }
+        due("not shut by these", x.told(0), 21);
     }
 
-    private static void partIs(String what, ShadowFiles x, int part, int[] want) {
-        int[] got = part(x, part);
-        int differs = Arrays.mismatch(got, want);
-        due(what + ": the first byte that differs in part " + part, differs, -1);
-    }
-
-    private static void due(String what, int got, int want) {
-        checks++;
-        if (got != want) {
-            failures++;
-            System.out.println(what + ": answered " + got + ", due is " + want);
+    private static void pokeRange() {
+        Probe x = withRow(0, 0, 60);
+        for (int what = 0; what < 3; what++) {
+            int part = what;
+            for (int mask : outside(1, 255)) {
+                refused("mask " + mask, x, p -> p.poke(part, 0, mask), RANGE);
+            }
         }
-    }
-
-    private static void throwsIt(String what, String want, Call call) {
-        checks++;
-        String got;
-        try {
-            got = "answer " + call.answer();
-        } catch (RuntimeException e) {
-            got = e.getClass().getSimpleName();
-        }
-        if (!got.equals(want)) {
-            failures++;
-            System.out.println(what + ": " + got + ", due is " + want);
-        }
+        due("not shut by these", x.told(0), 21);
+        due("mask 1", x.poke(0, 0, 1), 0);
+        due("mask 255", x.poke(0, 0, 255), 0);
+        due("both", x.byteAt(0, 0), 2 ^ 1 ^ 255);
     }
 }
