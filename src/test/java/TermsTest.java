@@ -1158,6 +1158,24 @@ public final class TermsTest extends Bench {
         x.open();
         due("in all of them", x.row(0, -1), 60);
         due("that is its month", x.at(0, 2), 3);
+        monthThatNoWriteGives(12);
+        monthThatNoWriteGives(255);
+    }
+
+    /** A place is right by the first one's month, whichever that is; a move can't name this one. */
+    private static void monthThatNoWriteGives(int month) {
+        Probe x = longRow();
+        for (int k = 0; k < 3; k++) {
+            x.forge(0, k * 32 + 2, month);
+        }
+        x.open();
+        rowIs("month " + month + " in all of them", x, 0, Probe.pattern(60, 0));
+        due("month " + month + " is answered", x.at(0, 2), month);
+        for (int other = 0; other < 12; other++) {
+            due("month " + month + " is not " + other, x.move(other), 0);
+        }
+        due("no month " + month + " to move", x.move(month), RANGE);
+        due("month " + month + ": not slow", x.at(0, 1), 0);
     }
 
     private static void brokenChains() {
@@ -1273,13 +1291,29 @@ public final class TermsTest extends Bench {
         due("the sixth is not", full.at(5, 1), 0);
         due("one is left", full.told(1), 1);
 
-        Probe parted = longRow().forge(0, 32 + 1, 7);
-        parted.open();
-        parted.move(2);
-        int[] want = new int[512];
-        int[] file = parted.part(0);
-        System.arraycopy(file, 0, want, 0, 96);
-        partIs("the chain is written as it is, place by place", parted, 1, want);
+        chainIsWrittenAsItIs();
+    }
+
+    /** A middle place that holds 7, which no write gives: only the links are others in the slow file. */
+    private static void chainIsWrittenAsItIs() {
+        Probe x = longRow().forge(0, 32 + 1, 7);
+        x.open();
+        int[] file = x.part(0);
+        x.put(1, 5, 1);
+        x.move(5);
+        due("moved", x.move(2), 1);
+        int[] want = x.part(1);
+        System.arraycopy(file, 0, want, 32, 96);
+        for (int place = 1; place <= 3; place++) {
+            want[place * 32] = place == 3 ? 0 : place + 2;
+            Probe.setSum(want, place * 32, 32);
+        }
+        partIs("the chain is written as it is, place by place", x, 1, want);
+        int[] bytes = Arrays.copyOf(Probe.pattern(60, 0), 42);
+        System.arraycopy(Probe.pattern(60, 0), 50, bytes, 32, 10);
+        rowIs("its bytes are what they were", x, 0, bytes);
+        due("its places too", x.at(0, 3), 3);
+        due("slow", x.at(0, 1), 1);
     }
 
     private static void slowInTheTable() {
